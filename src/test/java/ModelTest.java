@@ -114,11 +114,13 @@ public final class ModelTest {
 
         private final Random random;
         private final int reach;
+        private final int tameness;
         private int ticks = 1;
 
         Calls(int run) {
             random = new Random(run);
             reach = run % 3 == 0 ? 1000 : run % 3 == 1 ? 12 : 200;
+            tameness = run % 5 == 4 ? 5 : 60;
         }
 
         int which() {
@@ -140,7 +142,7 @@ public final class ModelTest {
             int[] a = new int[shape.length()];
             ticks = random.nextInt(4) == 0 ? 1 + random.nextInt(100) : 1 + random.nextInt(6);
             for (int i = 0; i < a.length; i++) {
-                a[i] = random.nextInt(60) == 0 ? wild() : argument(shape.charAt(i), model);
+                a[i] = random.nextInt(tameness) == 0 ? wild() : argument(shape.charAt(i), model);
             }
             return a;
         }

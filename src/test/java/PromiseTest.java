@@ -491,6 +491,22 @@ public final class PromiseTest {
         due(s.first(1, 0), 0);
         due(s.first(1, 1), 0);
         due(new ShapeBetween().first(100, 0), NONE);
+        ShapeBetween last = wholeStill();
+        last.move(3, 1, 1000, 1000);
+        due(last.first(7, 0), 7);
+        due(last.first(7, 1), 1);
+        last.move(3, 0, 1000, 1000);
+        last.move(1, 1, 1000, 1000);
+        due(last.first(7, 0), 0);
+        due(last.first(7, 1), 1);
+        last.move(3, 1, 0, 1000);
+        due(last.folds(0, 1), 1);
+        due(last.first(1, 0), 0);
+        due(last.first(1, 1), 1);
+        ShapeBetween growing = wholeStill();
+        growing.move(1, 0, 600, 400);
+        due(growing.first(1, 0), NONE);
+        due(growing.first(1, 1), NONE);
     }
 
     private static void sides() {
@@ -617,6 +633,31 @@ public final class PromiseTest {
         due(s.in(500, 500, 10, 10), NONE);
         due(s.in(500, 500, 5, 10), NONE);
         due(s.in(500, 500, 4, 10), 0);
+        inTheLeast();
+    }
+
+    /** A THIRD with an AREA of 1: its MARKS are the only places IN it, and those next to it have a SHARE of -1. */
+    private static void inTheLeast() {
+        ShapeBetween s = new ShapeBetween();
+        s.mark(5, 5, 5, 5);
+        s.mark(6, 5, 6, 5);
+        s.mark(5, 6, 5, 6);
+        s.third(0, 1, 2);
+        due(s.in(5, 5, 0, 1), 0);
+        due(s.in(6, 5, 0, 1), 0);
+        due(s.in(5, 6, 0, 1), 0);
+        due(s.in(6, 6, 0, 1), NONE);
+        due(s.in(4, 5, 0, 1), NONE);
+        due(s.in(5, 4, 0, 1), NONE);
+        due(s.from(6, 5, 1, 1, 0), 6);
+        due(s.from(6, 5, 1, 1, 3), 5);
+        due(s.kind(0), 2);
+        due(s.folds(0, 3), NONE);
+        s.move(1, 1, 7, 5);
+        due(s.kind(0), 1);
+        s.move(1, 0, 7, 5);
+        s.move(1, 1, 6, 5);
+        due(s.kind(0), 1);
     }
 
     private static void from() {
@@ -748,6 +789,18 @@ public final class PromiseTest {
         due(high.seen(1000, 333, 0, 1), 11);
         due(high.seen(1000, 334, 0, 1), 22);
         due(high.seen(0, 1000, 1, 1), 33);
+        fill(high, 0, 2, 1, 2, 3, 4, 5, 6, 7);
+        high.picture(0, 0, 0, 7, 1);
+        high.picture(1, 0, 0, 1, 7);
+        due(high.seen(142, 0, 0, 1), 1);
+        due(high.seen(143, 0, 0, 1), 2);
+        due(high.seen(0, 857, 1, 1), 6);
+        due(high.seen(0, 858, 1, 1), 7);
+        ShapeBetween half = wholeStill();
+        fill(half, 0, 2, 11);
+        half.picture(0, 0, 0, 1, 1);
+        due(half.seen(0, 0, 0, 1), STATE);
+        due(half.seen(0, 0, 2, 1), BAD);
     }
 
     private static void pairs() {
@@ -851,7 +904,7 @@ public final class PromiseTest {
         due(s.pairs(0, 30, 1, 30, 1), 30);
         due(s.pairs(0, 30, 1, 1, 0), 60000);
         due(s.pairs(0, 30, 1, 1, 2), 1);
-        // One POINT of each is far off at its other end: all the rest go alone, so that 59 pairs are met.
+        // First a goes alone, then both once, then b alone: no PAIRING of rows so long meets more pairs.
         s.sheet(2, 2, 60);
         s.sheet(3, 2, 60);
         s.set(2, 58, 1000);
