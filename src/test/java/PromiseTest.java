@@ -396,6 +396,21 @@ public final class PromiseTest {
         due(s.third(2, 2, 0), BAD);
         due(s.third(2, 16, 0), BAD);
         due(s.count(2), 24);
+        allThirdsFull(s);
+    }
+
+    /** With 24 THIRDS no row has room left: the calls that go through them all stop at the last. */
+    private static void allThirdsFull(ShapeBetween s) {
+        due(s.in(1000, 1000, 0, 1), NONE);
+        due(s.from(1000, 1000, 0, 1, 0), NONE);
+        due(s.first(100, 1), 1);
+        due(s.count(4), 23);
+        due(s.count(6), 1);
+        int sides = 0;
+        for (int many = 1; many <= 24; many++) {
+            sides += many * s.sides(many);
+        }
+        due(sides, 3 * 24);
     }
 
     private static void told() {
@@ -588,6 +603,15 @@ public final class PromiseTest {
         due(s.eased(506), 990);
         due(s.eased(1000), 1000);
         due(s.eased(1001), BAD);
+        s.key(600, 1000);
+        s.key(700, 1000);
+        due(s.count(7), 6);
+        due(s.eased(700), 1000);
+        due(s.eased(1000), 1000);
+        s.unkey();
+        s.key(100, 7);
+        due(s.eased(200), 7);
+        due(s.eased(1000), 7);
     }
 
     private static void unkey() {
@@ -725,6 +749,26 @@ public final class PromiseTest {
         s.sheet(2, 0, 144);
         due(s.picture(0, 2, 0, 12, 12), 1);
         due(s.picture(0, 2, 1, 12, 12), PLACE);
+        pictureLargest();
+    }
+
+    /** The largest PICTURES, of the last SHEET: neither reaches into the other. */
+    private static void pictureLargest() {
+        ShapeBetween s = wholeStill();
+        s.sheet(7, 2, 144);
+        s.sheet(6, 2, 144);
+        s.set(7, 0, 8);
+        s.set(7, 143, 9);
+        due(s.picture(1, 7, 0, 12, 12), 1);
+        due(s.picture(0, 6, 0, 12, 12), 1);
+        s.set(6, 143, 5);
+        due(s.picture(0, 6, 0, 12, 12), 1);
+        due(s.seen(0, 0, 1, 1), 8);
+        due(s.seen(1000, 1000, 1, 1), 9);
+        due(s.seen(1000, 1000, 0, 1), 5);
+        s.sheet(7, 2, 0);
+        due(s.picture(0, 6, 0, 12, 12), 1);
+        due(s.seen(0, 0, 1, 1), 8);
     }
 
     /** What is told stays, whatever becomes of the SHEET, and whatever is refused. */
