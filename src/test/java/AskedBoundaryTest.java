@@ -1,24 +1,13 @@
 /** Promises 23 to 28 at their boundaries: KINDS, ASKS, THE TRACE, what is counted, and the FINDING of the latest call. */
-public final class AskedBoundaryTest {
-    private static final int NONE = Boundary.NONE, BAD = Boundary.BAD, STATE = Boundary.STATE, FULL = Boundary.FULL;
-    private static final int NULL = Boundary.NULL, PLACE = Boundary.PLACE, KIND = Boundary.KIND;
-    private static final int SIZE = Boundary.SIZE, STORE = Boundary.STORE;
-    private static final int MIN = Boundary.MIN, MAX = Boundary.MAX;
-    private static final int BYTES = Boundary.BYTES, INTS = Boundary.INTS;
+public final class AskedBoundaryTest extends Boundary {
     private static final int SOUND = 1, STILL = 2, FLAT = 3, TURNED = 4;
-    private static final Boundary.World NEW = Boundary.World.NEW, BUSY = Boundary.World.BUSY;
-    private static final Boundary.World BRIMFUL = Boundary.World.BRIMFUL;
 
     public static void main(String[] args) {
-        Boundary.run(AskedBoundaryTest.class);
-    }
-
-    private static void due(int got, int want) {
-        Boundary.due(got, want);
+        run(AskedBoundaryTest.class);
     }
 
     private static ShapeBetween triangle(int before, int after) {
-        return Boundary.triangles(new int[] {before, after});
+        return triangles(new int[] {before, after});
     }
 
     private static void dueTrace(ShapeBetween s, int... bodies) {
@@ -34,9 +23,9 @@ public final class AskedBoundaryTest {
     // ---- 23: kind
 
     static void promise23ThirdsAreThoseThatThereAre() {
-        Boundary.leaves(NEW, BAD, s -> s.kind(0), s -> s.kind(-1));
-        Boundary.bounds(BUSY, BAD, (s, v) -> s.kind(v), 0, STILL, 3, FLAT);
-        Boundary.bounds(BRIMFUL, BAD, (s, v) -> s.kind(v), 0, STILL, 23, TURNED);
+        leaves(NEW, BAD, s -> s.kind(0), s -> s.kind(-1));
+        bounds(BUSY, BAD, (s, v) -> s.kind(v), 0, STILL, 3, FLAT);
+        bounds(BRIMFUL, BAD, (s, v) -> s.kind(v), 0, STILL, 23, TURNED);
     }
 
     static void promise23AnAreaOf1InBothIsSound() {
@@ -70,7 +59,7 @@ public final class AskedBoundaryTest {
         for (int mark = 0; mark < 3; mark++) {
             for (int picture = 0; picture < 2; picture++) {
                 for (int[] step : steps) {
-                    ShapeBetween s = Boundary.marked(marks);
+                    ShapeBetween s = marked(marks);
                     s.third(0, 1, 2);
                     due(s.kind(0), STILL);
                     s.move(mark, picture, marks[mark][0] + step[0], marks[mark][1] + step[1]);
@@ -100,47 +89,47 @@ public final class AskedBoundaryTest {
     }
 
     static void promise23ItChangesNothing() {
-        Boundary.leaves(BUSY, STILL, s -> s.kind(0));
-        Boundary.leaves(BUSY, SOUND, s -> s.kind(1));
-        Boundary.leaves(BUSY, TURNED, s -> s.kind(2));
+        leaves(BUSY, STILL, s -> s.kind(0));
+        leaves(BUSY, SOUND, s -> s.kind(1));
+        leaves(BUSY, TURNED, s -> s.kind(2));
     }
 
     // ---- 24: as
 
     static void promise24ThirdsAreThoseThatThereAre() {
-        Boundary.leaves(NEW, BAD, s -> s.as(0, 0), s -> s.as(-1, 3));
-        Boundary.bounds(BUSY, BAD, (s, v) -> s.as(v, 0), 0, 1000000, 3, 60000);
-        Boundary.bounds(BRIMFUL, BAD, (s, v) -> s.as(v, 0), 0, 1000000, 23, -19720);
+        leaves(NEW, BAD, s -> s.as(0, 0), s -> s.as(-1, 3));
+        bounds(BUSY, BAD, (s, v) -> s.as(v, 0), 0, 1000000, 3, 60000);
+        bounds(BRIMFUL, BAD, (s, v) -> s.as(v, 0), 0, 1000000, 23, -19720);
     }
 
     static void promise24KindsAre0To4() {
-        Boundary.bounds(BUSY, BAD, (s, v) -> s.as(0, v), 0, 1000000, 4, KIND);
-        Boundary.bounds(BRIMFUL, BAD, (s, v) -> s.as(23, v), 0, -19720, 4, -19720);
+        bounds(BUSY, BAD, (s, v) -> s.as(0, v), 0, 1000000, 4, KIND);
+        bounds(BRIMFUL, BAD, (s, v) -> s.as(23, v), 0, -19720, 4, -19720);
     }
 
     static void promise24BadComesAheadOfKind() {
-        Boundary.leaves(BUSY, BAD, s -> s.as(4, 3), s -> s.as(-1, 4), s -> s.as(0, 5), s -> s.as(2, -1),
+        leaves(BUSY, BAD, s -> s.as(4, 3), s -> s.as(-1, 4), s -> s.as(0, 5), s -> s.as(2, -1),
                 s -> s.as(MAX, MAX), s -> s.as(MIN, MIN));
     }
 
     static void promise24AStillOneIsSoundToo() {
-        Boundary.clears(BUSY, 1000000, s -> s.as(0, 0), s -> s.as(0, SOUND), s -> s.as(0, STILL));
-        Boundary.finds(BUSY, KIND, s -> s.as(0, FLAT), s -> s.as(0, TURNED));
+        clears(BUSY, 1000000, s -> s.as(0, 0), s -> s.as(0, SOUND), s -> s.as(0, STILL));
+        finds(BUSY, KIND, s -> s.as(0, FLAT), s -> s.as(0, TURNED));
     }
 
     static void promise24ASoundOneIsNotStill() {
-        Boundary.clears(BUSY, 50000, s -> s.as(1, 0), s -> s.as(1, SOUND));
-        Boundary.finds(BUSY, KIND, s -> s.as(1, STILL), s -> s.as(1, FLAT), s -> s.as(1, TURNED));
+        clears(BUSY, 50000, s -> s.as(1, 0), s -> s.as(1, SOUND));
+        finds(BUSY, KIND, s -> s.as(1, STILL), s -> s.as(1, FLAT), s -> s.as(1, TURNED));
     }
 
     static void promise24ATurnedOneIsNoOther() {
-        Boundary.clears(BUSY, -200000, s -> s.as(2, 0), s -> s.as(2, TURNED));
-        Boundary.finds(BUSY, KIND, s -> s.as(2, SOUND), s -> s.as(2, STILL), s -> s.as(2, FLAT));
+        clears(BUSY, -200000, s -> s.as(2, 0), s -> s.as(2, TURNED));
+        finds(BUSY, KIND, s -> s.as(2, SOUND), s -> s.as(2, STILL), s -> s.as(2, FLAT));
     }
 
     static void promise24AFlatOneIsNoOther() {
-        Boundary.clears(BUSY, 60000, s -> s.as(3, 0), s -> s.as(3, FLAT));
-        Boundary.finds(BUSY, KIND, s -> s.as(3, SOUND), s -> s.as(3, STILL), s -> s.as(3, TURNED));
+        clears(BUSY, 60000, s -> s.as(3, 0), s -> s.as(3, FLAT));
+        finds(BUSY, KIND, s -> s.as(3, SOUND), s -> s.as(3, STILL), s -> s.as(3, TURNED));
         ShapeBetween s = triangle(0, -1);
         due(s.as(0, FLAT), -1);
         due(s.as(0, TURNED), KIND);
@@ -154,13 +143,13 @@ public final class AskedBoundaryTest {
     // ---- 25: ask
 
     static void promise25ThirdsAreThoseThatThereAre() {
-        Boundary.leaves(NEW, BAD, s -> s.ask(0, 0), s -> s.ask(-1, 1));
-        Boundary.bounds(BUSY, BAD, (s, v) -> s.ask(v, 0), 0, 1000103, 3, 0);
-        Boundary.bounds(BRIMFUL, BAD, (s, v) -> s.ask(v, 1), 0, 103, 23, 28 - 8950);
+        leaves(NEW, BAD, s -> s.ask(0, 0), s -> s.ask(-1, 1));
+        bounds(BUSY, BAD, (s, v) -> s.ask(v, 0), 0, 1000103, 3, 0);
+        bounds(BRIMFUL, BAD, (s, v) -> s.ask(v, 1), 0, 103, 23, 28 - 8950);
     }
 
     static void promise25AsksAre0And1() {
-        Boundary.bounds(BUSY, BAD, (s, v) -> s.ask(1, v), 0, 55000, 1, 112);
+        bounds(BUSY, BAD, (s, v) -> s.ask(1, v), 0, 55000, 1, 112);
     }
 
     static void promise25TheTraceStaysWhereItIsRefused() {
@@ -174,9 +163,9 @@ public final class AskedBoundaryTest {
 
     static void promise25TheTraceIsEmptyAheadOfIt() {
         String none = ": " + NONE;
-        Boundary.changes(BUSY, 0, s -> s.ask(3, 0), "trace 0: 13", "trace 1" + none, "trace 2" + none, "trace 3" + none,
+        changes(BUSY, 0, s -> s.ask(3, 0), "trace 0: 13", "trace 1" + none, "trace 2" + none, "trace 3" + none,
                 "trace 4" + none);
-        Boundary.changes(BUSY, 112, s -> s.ask(1, 1), "trace 0: 21", "trace 1: 20", "trace 2" + none,
+        changes(BUSY, 112, s -> s.ask(1, 1), "trace 0: 21", "trace 1: 20", "trace 2" + none,
                 "trace 3" + none, "trace 4" + none);
         ShapeBetween s = BUSY.make();
         for (int again = 0; again < 5; again++) {
@@ -234,14 +223,14 @@ public final class AskedBoundaryTest {
     // ---- 26: trace
 
     static void promise26NoneAheadOfTheFirstAsk() {
-        Boundary.leaves(NEW, NONE, s -> s.trace(0), s -> s.trace(-1), s -> s.trace(15), s -> s.trace(16),
+        leaves(NEW, NONE, s -> s.trace(0), s -> s.trace(-1), s -> s.trace(15), s -> s.trace(16),
                 s -> s.trace(MIN), s -> s.trace(MAX));
     }
 
     static void promise26NoneBelow0AndBehindTheLast() {
-        Boundary.leaves(BUSY, 12, s -> s.trace(0));
-        Boundary.leaves(BUSY, 20, s -> s.trace(4));
-        Boundary.leaves(BUSY, NONE, s -> s.trace(-1), s -> s.trace(5), s -> s.trace(15), s -> s.trace(16),
+        leaves(BUSY, 12, s -> s.trace(0));
+        leaves(BUSY, 20, s -> s.trace(4));
+        leaves(BUSY, NONE, s -> s.trace(-1), s -> s.trace(5), s -> s.trace(15), s -> s.trace(16),
                 s -> s.trace(17), s -> s.trace(MIN), s -> s.trace(MAX));
     }
 
@@ -262,9 +251,9 @@ public final class AskedBoundaryTest {
     // ---- 27: count
 
     static void promise27WhatIs0To7() {
-        Boundary.bounds(NEW, BAD, (s, v) -> s.count(v), 0, 0, 7, 0);
-        Boundary.bounds(BUSY, BAD, (s, v) -> s.count(v), 0, 5, 7, 3);
-        Boundary.bounds(BRIMFUL, BAD, (s, v) -> s.count(v), 0, 8, 7, 6);
+        bounds(NEW, BAD, (s, v) -> s.count(v), 0, 0, 7, 0);
+        bounds(BUSY, BAD, (s, v) -> s.count(v), 0, 5, 7, 3);
+        bounds(BRIMFUL, BAD, (s, v) -> s.count(v), 0, 8, 7, 6);
     }
 
     static void promise27EachCount() {
@@ -272,9 +261,9 @@ public final class AskedBoundaryTest {
         int[] brimful = {8, 16, 24, 13, 1, 0, 11, 6};
         for (int what = 0; what < 8; what++) {
             int of = what;
-            Boundary.leaves(NEW, 0, s -> s.count(of));
-            Boundary.leaves(BUSY, busy[what], s -> s.count(of));
-            Boundary.leaves(BRIMFUL, brimful[what], s -> s.count(of));
+            leaves(NEW, 0, s -> s.count(of));
+            leaves(BUSY, busy[what], s -> s.count(of));
+            leaves(BRIMFUL, brimful[what], s -> s.count(of));
         }
     }
 
@@ -301,11 +290,11 @@ public final class AskedBoundaryTest {
     }
 
     static void promise28EachFindingHasItsNumber() {
-        Boundary.finds(BUSY, NULL, s -> s.set(5, 0, 0));
-        Boundary.finds(BUSY, PLACE, s -> s.set(0, 4, 0));
-        Boundary.finds(BUSY, KIND, s -> s.as(0, 3));
-        Boundary.finds(BUSY, SIZE, s -> s.sheet(0, 0, -1));
-        Boundary.finds(BUSY, STORE, s -> s.copy(0, 0, 1, 0, 0));
+        finds(BUSY, NULL, s -> s.set(5, 0, 0));
+        finds(BUSY, PLACE, s -> s.set(0, 4, 0));
+        finds(BUSY, KIND, s -> s.as(0, 3));
+        finds(BUSY, SIZE, s -> s.sheet(0, 0, -1));
+        finds(BUSY, STORE, s -> s.copy(0, 0, 1, 0, 0));
         int[] answers = {NULL, PLACE, KIND, SIZE, STORE};
         for (int number = 1; number <= 5; number++) {
             due(answers[number - 1], -1000010 - number);
@@ -330,7 +319,7 @@ public final class AskedBoundaryTest {
     }
 
     static void promise28BadLeavesIt() {
-        Boundary.leaves(BUSY, BAD, s -> s.sheet(8, 0, 0), s -> s.set(8, 0, 0), s -> s.copy(8, 0, 0, 0, 0), s -> s.drop(8),
+        leaves(BUSY, BAD, s -> s.sheet(8, 0, 0), s -> s.set(8, 0, 0), s -> s.copy(8, 0, 0, 0, 0), s -> s.drop(8),
                 s -> s.picture(2, 0, 0, 1, 1), s -> s.pairs(8, 1, 0, 1, 0), s -> s.pair(8, 1, 0, 1, 0), s -> s.as(9, 0));
     }
 
@@ -338,7 +327,7 @@ public final class AskedBoundaryTest {
     static void promise28BadOfNumbersLeavesIt() {
         for (int sheet : new int[] {0, 2}) {
             ShapeBetween s = new ShapeBetween();
-            Boundary.fill(s, sheet, INTS, 1001, 0);
+            fill(s, sheet, INTS, 1001, 0);
             for (int before = 0; before < 2; before++) {
                 due(before == 0 ? s.copy(sheet, 0, sheet, 0, 2) : s.drop(5), before == 0 ? 2 : NULL);
                 due(s.picture(0, sheet, 0, 1, 1), BAD);
@@ -352,18 +341,18 @@ public final class AskedBoundaryTest {
     }
 
     static void promise28StateAndFullLeaveIt() {
-        Boundary.leaves(BUSY, STATE, s -> s.third(0, 1, 2), s -> s.key(0, 0));
-        Boundary.leaves(NEW, STATE, s -> s.seen(0, 0, 0, 1));
-        Boundary.leaves(BRIMFUL, FULL, s -> s.mark(0, 0, 0, 0), s -> s.third(3, 9, 15), s -> s.key(1000, 1000));
+        leaves(BUSY, STATE, s -> s.third(0, 1, 2), s -> s.key(0, 0));
+        leaves(NEW, STATE, s -> s.seen(0, 0, 0, 1));
+        leaves(BRIMFUL, FULL, s -> s.mark(0, 0, 0, 0), s -> s.third(3, 9, 15), s -> s.key(1000, 1000));
     }
 
     static void promise28CallsWithoutASheetLeaveIt() {
-        Boundary.Call[] calls = {s -> s.mark(0, 0, 0, 0), s -> s.move(0, 0, 0, 0), s -> s.at(0, 0, 1, 0),
+        Call[] calls = {s -> s.mark(0, 0, 0, 0), s -> s.move(0, 0, 0, 0), s -> s.at(0, 0, 1, 0),
             s -> s.third(1, 2, 3), s -> s.told(0, 0), s -> s.folds(0, 1), s -> s.first(1, 0), s -> s.sides(1),
             s -> s.key(1000, 1000), s -> s.eased(0), s -> s.unkey(), s -> s.in(0, 0, 0, 1), s -> s.from(0, 0, 0, 1, 0),
             s -> s.seen(0, 0, 0, 1), s -> s.kind(0), s -> s.ask(0, 0), s -> s.trace(0), s -> s.count(0),
             s -> s.status()};
-        for (Boundary.Call call : calls) {
+        for (Call call : calls) {
             ShapeBetween s = BUSY.make();
             s.set(0, 4, 0);
             call.on(s);
@@ -372,11 +361,11 @@ public final class AskedBoundaryTest {
     }
 
     static void promise28ACallWithoutAFindingMakesIt0() {
-        Boundary.Call[] calls = {s -> s.sheet(0, 0, 0), s -> s.sheet(7, 2, 144), s -> s.set(0, 0, 0),
+        Call[] calls = {s -> s.sheet(0, 0, 0), s -> s.sheet(7, 2, 144), s -> s.set(0, 0, 0),
             s -> s.copy(0, 0, 0, 0, 0), s -> s.copy(2, 0, 4, 0, 4), s -> s.drop(0), s -> s.drop(3),
             s -> s.picture(0, 0, 0, 1, 1), s -> s.pairs(0, 1, 0, 1, 0), s -> s.pair(0, 1, 0, 1, 0),
             s -> s.pair(0, 1, 0, 1, -1), s -> s.pair(0, 1, 0, 1, 1), s -> s.as(0, 0), s -> s.as(2, TURNED)};
-        for (Boundary.Call call : calls) {
+        for (Call call : calls) {
             ShapeBetween s = BUSY.make();
             s.set(0, 4, 0);
             due(s.status(), 2);

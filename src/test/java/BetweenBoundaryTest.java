@@ -1,23 +1,12 @@
 /** Promises 14 to 20 at their boundaries: KEYS, places between, and what is seen there. */
-public final class BetweenBoundaryTest {
-    private static final int NONE = Boundary.NONE, BAD = Boundary.BAD, STATE = Boundary.STATE, FULL = Boundary.FULL;
-    private static final int NULL = Boundary.NULL, PLACE = Boundary.PLACE;
-    private static final int MIN = Boundary.MIN, MAX = Boundary.MAX;
-    private static final int BYTES = Boundary.BYTES, SHORTS = Boundary.SHORTS, INTS = Boundary.INTS;
-    private static final Boundary.World NEW = Boundary.World.NEW, BUSY = Boundary.World.BUSY;
-    private static final Boundary.World BRIMFUL = Boundary.World.BRIMFUL;
-
+public final class BetweenBoundaryTest extends Boundary {
     public static void main(String[] args) {
-        Boundary.run(BetweenBoundaryTest.class);
-    }
-
-    private static void due(int got, int want) {
-        Boundary.due(got, want);
+        run(BetweenBoundaryTest.class);
     }
 
     /** One THIRD of MARKS 0, 1, 2, told as x0, y0, x1, y1 each. */
     private static ShapeBetween one(int[] a, int[] b, int[] c) {
-        ShapeBetween s = Boundary.marked(a, b, c);
+        ShapeBetween s = marked(a, b, c);
         s.third(0, 1, 2);
         return s;
     }
@@ -37,18 +26,18 @@ public final class BetweenBoundaryTest {
     // ---- 14: key
 
     static void promise14TimesAre0To1000() {
-        Boundary.bounds(NEW, BAD, (s, v) -> s.key(v, 500), 0, 1, 1000, 1);
-        Boundary.bounds(BUSY, BAD, (s, v) -> s.key(v, 960), 0, STATE, 1000, 4);
+        bounds(NEW, BAD, (s, v) -> s.key(v, 500), 0, 1, 1000, 1);
+        bounds(BUSY, BAD, (s, v) -> s.key(v, 960), 0, STATE, 1000, 4);
     }
 
     static void promise14SharesAre0To1000() {
-        Boundary.bounds(NEW, BAD, (s, v) -> s.key(500, v), 0, 1, 1000, 1);
-        Boundary.bounds(BUSY, BAD, (s, v) -> s.key(950, v), 0, STATE, 1000, 4);
+        bounds(NEW, BAD, (s, v) -> s.key(500, v), 0, 1, 1000, 1);
+        bounds(BUSY, BAD, (s, v) -> s.key(950, v), 0, STATE, 1000, 4);
     }
 
     static void promise14BadComesAheadOfStateAndFull() {
-        Boundary.bounds(BRIMFUL, BAD, (s, v) -> s.key(v, 1000), 0, STATE, 1000, FULL);
-        Boundary.bounds(BRIMFUL, BAD, (s, v) -> s.key(1000, v), 0, STATE, 1000, FULL);
+        bounds(BRIMFUL, BAD, (s, v) -> s.key(v, 1000), 0, STATE, 1000, FULL);
+        bounds(BRIMFUL, BAD, (s, v) -> s.key(1000, v), 0, STATE, 1000, FULL);
     }
 
     static void promise14TheFirstMayBeAny() {
@@ -59,7 +48,7 @@ public final class BetweenBoundaryTest {
     }
 
     static void promise14EachTimeIsAboveTheOneAhead() {
-        Boundary.leaves(BUSY, STATE, s -> s.key(900, 950), s -> s.key(899, 950), s -> s.key(900, 1000),
+        leaves(BUSY, STATE, s -> s.key(900, 950), s -> s.key(899, 950), s -> s.key(900, 1000),
                 s -> s.key(500, 960), s -> s.key(0, 1000));
         due(BUSY.make().key(901, 950), 4);
         ShapeBetween s = keyed(1000, 0);
@@ -68,7 +57,7 @@ public final class BetweenBoundaryTest {
     }
 
     static void promise14NoShareIsBelowTheOneAhead() {
-        Boundary.leaves(BUSY, STATE, s -> s.key(901, 949), s -> s.key(1000, 0), s -> s.key(1000, 300));
+        leaves(BUSY, STATE, s -> s.key(901, 949), s -> s.key(1000, 0), s -> s.key(1000, 300));
         due(BUSY.make().key(1000, 950), 4);
         due(BUSY.make().key(1000, 951), 4);
         ShapeBetween s = keyed(0, 1000);
@@ -80,48 +69,48 @@ public final class BetweenBoundaryTest {
         ShapeBetween s = keyed(0, 0, 1, 0, 2, 0, 3, 1, 4, 1, 5, 1);
         due(s.key(6, 1), FULL);
         due(s.count(7), 6);
-        Boundary.leaves(BRIMFUL, FULL, w -> w.key(1000, 1000));
+        leaves(BRIMFUL, FULL, w -> w.key(1000, 1000));
     }
 
     static void promise14StateComesAheadOfFull() {
-        Boundary.leaves(BRIMFUL, STATE, s -> s.key(999, 1000), s -> s.key(1000, 999), s -> s.key(0, 0));
+        leaves(BRIMFUL, STATE, s -> s.key(999, 1000), s -> s.key(1000, 999), s -> s.key(0, 0));
     }
 
     static void promise14JustThatKeyIsNew() {
-        Boundary.changes(BUSY, 4, s -> s.key(950, 960), "count 7: 4", "eased 950: 960", "eased 999: 960",
+        changes(BUSY, 4, s -> s.key(950, 960), "count 7: 4", "eased 950: 960", "eased 999: 960",
                 "eased 1000: 960");
     }
 
     // ---- 15: eased
 
     static void promise15TimesAre0To1000() {
-        Boundary.bounds(NEW, BAD, (s, v) -> s.eased(v), 0, 0, 1000, 1000);
-        Boundary.bounds(BUSY, BAD, (s, v) -> s.eased(v), 0, 50, 1000, 950);
-        Boundary.bounds(BRIMFUL, BAD, (s, v) -> s.eased(v), 0, 0, 1000, 1000);
+        bounds(NEW, BAD, (s, v) -> s.eased(v), 0, 0, 1000, 1000);
+        bounds(BUSY, BAD, (s, v) -> s.eased(v), 0, 50, 1000, 950);
+        bounds(BRIMFUL, BAD, (s, v) -> s.eased(v), 0, 0, 1000, 1000);
     }
 
     static void promise15WithoutKeysItIsTheTime() {
         for (int time : new int[] {0, 1, 500, 999, 1000}) {
-            Boundary.leaves(NEW, time, s -> s.eased(time));
+            leaves(NEW, time, s -> s.eased(time));
         }
     }
 
     static void promise15BeforeTheFirstKeyItsShare() {
-        Boundary.leaves(BUSY, 50, s -> s.eased(0), s -> s.eased(99), s -> s.eased(100), s -> s.eased(101));
-        Boundary.leaves(BUSY, 51, s -> s.eased(102));
+        leaves(BUSY, 50, s -> s.eased(0), s -> s.eased(99), s -> s.eased(100), s -> s.eased(101));
+        leaves(BUSY, 51, s -> s.eased(102));
     }
 
     static void promise15BehindTheLastKeyItsShare() {
-        Boundary.leaves(BUSY, 948, s -> s.eased(899));
-        Boundary.leaves(BUSY, 950, s -> s.eased(900), s -> s.eased(901), s -> s.eased(1000));
-        Boundary.leaves(BRIMFUL, 999, s -> s.eased(998));
-        Boundary.leaves(BRIMFUL, 1000, s -> s.eased(999), s -> s.eased(1000));
+        leaves(BUSY, 948, s -> s.eased(899));
+        leaves(BUSY, 950, s -> s.eased(900), s -> s.eased(901), s -> s.eased(1000));
+        leaves(BRIMFUL, 999, s -> s.eased(998));
+        leaves(BRIMFUL, 1000, s -> s.eased(999), s -> s.eased(1000));
     }
 
     static void promise15AtAKeyBetweenItsShare() {
-        Boundary.leaves(BUSY, 199, s -> s.eased(399));
-        Boundary.leaves(BUSY, 200, s -> s.eased(400));
-        Boundary.leaves(BUSY, 201, s -> s.eased(401));
+        leaves(BUSY, 199, s -> s.eased(399));
+        leaves(BUSY, 200, s -> s.eased(400));
+        leaves(BUSY, 201, s -> s.eased(401));
     }
 
     static void promise15OneKeyIsItsShareAlways() {
@@ -177,12 +166,12 @@ public final class BetweenBoundaryTest {
     // ---- 16: unkey
 
     static void promise16NoneThereIs0() {
-        Boundary.leaves(NEW, 0, s -> s.unkey());
+        leaves(NEW, 0, s -> s.unkey());
     }
 
     static void promise16JustTheKeysGo() {
-        Boundary.changesOnly(BUSY, 3, s -> s.unkey(), "count 7: 0", "eased ");
-        Boundary.changesOnly(BRIMFUL, 6, s -> s.unkey(), "count 7: 0", "eased ");
+        changesOnly(BUSY, 3, s -> s.unkey(), "count 7: 0", "eased ");
+        changesOnly(BRIMFUL, 6, s -> s.unkey(), "count 7: 0", "eased ");
     }
 
     static void promise16AfterwardsItIsAsAtFirst() {
@@ -203,19 +192,19 @@ public final class BetweenBoundaryTest {
     // ---- 17: in
 
     static void promise17PlacesAre0To1000() {
-        Boundary.bounds(NEW, BAD, (s, v) -> s.in(v, 0, 0, 1), 0, NONE, 1000, NONE);
-        Boundary.bounds(BUSY, BAD, (s, v) -> s.in(v, 0, 0, 1), 0, 0, 1000, 0);
-        Boundary.bounds(BUSY, BAD, (s, v) -> s.in(0, v, 0, 1), 0, 0, 1000, 0);
+        bounds(NEW, BAD, (s, v) -> s.in(v, 0, 0, 1), 0, NONE, 1000, NONE);
+        bounds(BUSY, BAD, (s, v) -> s.in(v, 0, 0, 1), 0, 0, 1000, 0);
+        bounds(BUSY, BAD, (s, v) -> s.in(0, v, 0, 1), 0, 0, 1000, 0);
     }
 
     static void promise17TicksAreOf1To100() {
-        Boundary.bounds(BUSY, BAD, (s, v) -> s.in(5, 5, 0, v), 1, 0, 100, 0);
-        Boundary.bounds(BUSY, BAD, (s, v) -> s.in(5, 5, v, v), 1, 0, 100, 0);
+        bounds(BUSY, BAD, (s, v) -> s.in(5, 5, 0, v), 1, 0, 100, 0);
+        bounds(BUSY, BAD, (s, v) -> s.in(5, 5, v, v), 1, 0, 100, 0);
     }
 
     static void promise17TicksAre0ToN() {
-        Boundary.bounds(BUSY, BAD, (s, v) -> s.in(5, 5, v, 1), 0, 0, 1, 0);
-        Boundary.bounds(BUSY, BAD, (s, v) -> s.in(5, 5, v, 100), 0, 0, 100, 0);
+        bounds(BUSY, BAD, (s, v) -> s.in(5, 5, v, 1), 0, 0, 1, 0);
+        bounds(BUSY, BAD, (s, v) -> s.in(5, 5, v, 100), 0, 0, 100, 0);
     }
 
     static void promise17CornersAndSidesAreIn() {
@@ -231,6 +220,18 @@ public final class BetweenBoundaryTest {
                 due(s.in(place[0], place[1], n, n), NONE);
             }
         }
+    }
+
+    /** The least AREA that is UPRIGHT, 1, and the places next to it, where one of the SHARES is -1. */
+    static void promise17AnAreaOf1IsUprightAndAShareBelow0IsOut() {
+        ShapeBetween s = one(still(10, 10), still(11, 10), still(10, 11));
+        due(s.told(0, 3), 1);
+        due(s.in(10, 10, 0, 1), 0);
+        due(s.in(11, 10, 0, 1), 0);
+        due(s.in(10, 11, 1, 1), 0);
+        due(s.in(11, 11, 0, 1), NONE);
+        due(s.in(9, 10, 0, 1), NONE);
+        due(s.in(10, 9, 1, 1), NONE);
     }
 
     /** A THIRD that goes by one to the right: at the TICKS between its sides run between whole places. */
@@ -278,12 +279,12 @@ public final class BetweenBoundaryTest {
     }
 
     static void promise17OfSeveralTheLeast() {
-        ShapeBetween s = Boundary.covered();
+        ShapeBetween s = covered();
         due(s.in(500, 500, 0, 1), 0);
         due(s.in(1000, 0, 0, 1), 0);
         due(s.in(501, 500, 0, 1), 1);
         due(BUSY.make().in(150, 150, 0, 1), 0);
-        ShapeBetween over = Boundary.marked(still(0, 0), still(0, 100), still(100, 0), still(90, 90));
+        ShapeBetween over = marked(still(0, 0), still(0, 100), still(100, 0), still(90, 90));
         over.third(0, 1, 2);
         over.third(0, 2, 3);
         over.third(0, 3, 1);
@@ -311,31 +312,31 @@ public final class BetweenBoundaryTest {
     }
 
     static void promise17ItChangesNothing() {
-        Boundary.leaves(BUSY, NONE, s -> s.in(1000, 1000, 0, 1));
-        Boundary.leaves(BUSY, 0, s -> s.in(1, 1, 7, 9));
+        leaves(BUSY, NONE, s -> s.in(1000, 1000, 0, 1));
+        leaves(BUSY, 0, s -> s.in(1, 1, 7, 9));
     }
 
     // ---- 18: from
 
     static void promise18PlacesAre0To1000() {
-        Boundary.bounds(NEW, BAD, (s, v) -> s.from(v, 0, 0, 1, 0), 0, NONE, 1000, NONE);
-        Boundary.bounds(BUSY, BAD, (s, v) -> s.from(v, 0, 0, 1, 0), 0, 0, 1000, 1000);
-        Boundary.bounds(BUSY, BAD, (s, v) -> s.from(0, v, 0, 1, 3), 0, 0, 1000, 1000);
+        bounds(NEW, BAD, (s, v) -> s.from(v, 0, 0, 1, 0), 0, NONE, 1000, NONE);
+        bounds(BUSY, BAD, (s, v) -> s.from(v, 0, 0, 1, 0), 0, 0, 1000, 1000);
+        bounds(BUSY, BAD, (s, v) -> s.from(0, v, 0, 1, 3), 0, 0, 1000, 1000);
     }
 
     static void promise18TicksAreOf1To100() {
-        Boundary.bounds(BUSY, BAD, (s, v) -> s.from(5, 6, 0, v, 0), 1, 5, 100, 5);
-        Boundary.bounds(BUSY, BAD, (s, v) -> s.from(5, 6, v, v, 3), 1, 6, 100, 6);
+        bounds(BUSY, BAD, (s, v) -> s.from(5, 6, 0, v, 0), 1, 5, 100, 5);
+        bounds(BUSY, BAD, (s, v) -> s.from(5, 6, v, v, 3), 1, 6, 100, 6);
     }
 
     static void promise18TicksAre0ToN() {
-        Boundary.bounds(BUSY, BAD, (s, v) -> s.from(5, 6, v, 1, 0), 0, 5, 1, 5);
-        Boundary.bounds(BUSY, BAD, (s, v) -> s.from(5, 6, v, 100, 1), 0, 6, 100, 6);
+        bounds(BUSY, BAD, (s, v) -> s.from(5, 6, v, 1, 0), 0, 5, 1, 5);
+        bounds(BUSY, BAD, (s, v) -> s.from(5, 6, v, 100, 1), 0, 6, 100, 6);
     }
 
     static void promise18WhatIs0To3() {
-        Boundary.bounds(NEW, BAD, (s, v) -> s.from(5, 6, 0, 1, v), 0, NONE, 3, NONE);
-        Boundary.bounds(BUSY, BAD, (s, v) -> s.from(5, 6, 0, 1, v), 0, 5, 3, 6);
+        bounds(NEW, BAD, (s, v) -> s.from(5, 6, 0, 1, v), 0, NONE, 3, NONE);
+        bounds(BUSY, BAD, (s, v) -> s.from(5, 6, 0, 1, v), 0, 5, 3, 6);
         ShapeBetween s = one(new int[] {0, 0, 500, 600}, new int[] {100, 0, 600, 600}, new int[] {0, 100, 500, 700});
         due(s.from(30, 40, 0, 1, 0), 30);
         due(s.from(30, 40, 0, 1, 1), 40);
@@ -344,13 +345,13 @@ public final class BetweenBoundaryTest {
     }
 
     static void promise18BadComesAheadOfNone() {
-        Boundary.leaves(BUSY, BAD, s -> s.from(1000, 1000, 0, 1, 4), s -> s.from(1000, 1000, 2, 1, 0),
+        leaves(BUSY, BAD, s -> s.from(1000, 1000, 0, 1, 4), s -> s.from(1000, 1000, 2, 1, 0),
                 s -> s.from(1000, 1001, 0, 1, 0), s -> s.from(MAX, MAX, MAX, MAX, MAX),
                 s -> s.from(MIN, MIN, MIN, MIN, MIN));
     }
 
     static void promise18NoneIfItIsInNoThird() {
-        Boundary.leaves(BUSY, NONE, s -> s.from(501, 500, 0, 1, 0), s -> s.from(1000, 1000, 1, 1, 3));
+        leaves(BUSY, NONE, s -> s.from(501, 500, 0, 1, 0), s -> s.from(1000, 1000, 1, 1, 3));
         ShapeBetween flat = one(still(10, 10), still(20, 20), still(30, 30));
         ShapeBetween turned = one(still(100, 100), still(100, 200), still(200, 100));
         for (int what = 0; what < 4; what++) {
@@ -391,8 +392,17 @@ public final class BetweenBoundaryTest {
         }
     }
 
+    static void promise18AnAreaOf1Divides() {
+        ShapeBetween s = one(new int[] {10, 10, 500, 600}, new int[] {11, 10, 700, 600}, new int[] {10, 11, 500, 800});
+        due(s.told(0, 3), 1);
+        due(s.from(11, 10, 0, 1, 2), 700);
+        due(s.from(10, 11, 0, 1, 3), 800);
+        due(s.from(10, 10, 0, 1, 2), 500);
+        due(s.from(11, 11, 0, 1, 2), NONE);
+    }
+
     static void promise18GreatSharesDoNotWrapAround() {
-        ShapeBetween s = Boundary.covered();
+        ShapeBetween s = covered();
         int[][] places = {{1000, 0}, {0, 1000}, {1000, 1000}, {999, 999}, {500, 500}, {501, 500}, {0, 0}, {333, 667}};
         for (int[] p : places) {
             for (int k : new int[] {0, 37, 100}) {
@@ -405,7 +415,7 @@ public final class BetweenBoundaryTest {
     }
 
     static void promise18ByTheLeastThirdItIsIn() {
-        ShapeBetween s = Boundary.marked(still(0, 0), new int[] {100, 0, 200, 0}, new int[] {0, 100, 0, 200},
+        ShapeBetween s = marked(still(0, 0), new int[] {100, 0, 200, 0}, new int[] {0, 100, 0, 200},
                 still(50, 0), still(0, 50));
         s.third(0, 3, 4);
         s.third(0, 1, 2);
@@ -417,19 +427,19 @@ public final class BetweenBoundaryTest {
     // ---- 19: picture
 
     static void promise19PicturesAre0And1() {
-        Boundary.bounds(BUSY, BAD, (s, v) -> s.picture(v, 2, 0, 1, 1), 0, 1, 1, 1);
-        Boundary.bounds(NEW, BAD, (s, v) -> s.picture(v, 2, 0, 1, 1), 0, NULL, 1, NULL);
+        bounds(BUSY, BAD, (s, v) -> s.picture(v, 2, 0, 1, 1), 0, 1, 1, 1);
+        bounds(NEW, BAD, (s, v) -> s.picture(v, 2, 0, 1, 1), 0, NULL, 1, NULL);
     }
 
     static void promise19SheetsAre0To7() {
-        Boundary.bounds(BUSY, BAD, (s, v) -> s.picture(0, v, 0, 1, 1), 0, 1, 7, NULL);
-        Boundary.bounds(BRIMFUL, BAD, (s, v) -> s.picture(0, v, 0, 1, 1), 0, 1, 7, PLACE);
+        bounds(BUSY, BAD, (s, v) -> s.picture(0, v, 0, 1, 1), 0, 1, 7, NULL);
+        bounds(BRIMFUL, BAD, (s, v) -> s.picture(0, v, 0, 1, 1), 0, 1, 7, PLACE);
     }
 
     static void promise19CellsAre1To12EachWay() {
-        Boundary.bounds(BUSY, BAD, (s, v) -> s.picture(0, 2, 0, v, 1), 1, 1, 12, PLACE);
-        Boundary.bounds(BUSY, BAD, (s, v) -> s.picture(0, 2, 0, 1, v), 1, 1, 12, PLACE);
-        Boundary.bounds(BUSY, BAD, (s, v) -> s.picture(0, 5, 0, v, v), 1, NULL, 12, NULL);
+        bounds(BUSY, BAD, (s, v) -> s.picture(0, 2, 0, v, 1), 1, 1, 12, PLACE);
+        bounds(BUSY, BAD, (s, v) -> s.picture(0, 2, 0, 1, v), 1, 1, 12, PLACE);
+        bounds(BUSY, BAD, (s, v) -> s.picture(0, 5, 0, v, v), 1, NULL, 12, NULL);
         ShapeBetween s = new ShapeBetween();
         s.sheet(0, INTS, 144);
         due(s.picture(0, 0, 0, 12, 1), 1);
@@ -443,23 +453,23 @@ public final class BetweenBoundaryTest {
     }
 
     static void promise19BadComesAheadOfFindings() {
-        Boundary.leaves(BUSY, BAD, s -> s.picture(2, 5, 0, 1, 1), s -> s.picture(0, 8, 0, 1, 1),
+        leaves(BUSY, BAD, s -> s.picture(2, 5, 0, 1, 1), s -> s.picture(0, 8, 0, 1, 1),
                 s -> s.picture(0, 5, 0, 0, 1), s -> s.picture(0, 5, -1, 1, 13), s -> s.picture(-1, 2, 99, 1, 1),
                 s -> s.picture(0, 2, -1, 13, 1), s -> s.picture(MAX, MAX, MAX, MAX, MAX),
                 s -> s.picture(MIN, MIN, MIN, MIN, MIN));
     }
 
     static void promise19AMissingSheetIsNull() {
-        Boundary.finds(BUSY, NULL, s -> s.picture(0, 5, 0, 1, 1), s -> s.picture(1, 7, 0, 12, 12));
+        finds(BUSY, NULL, s -> s.picture(0, 5, 0, 1, 1), s -> s.picture(1, 7, 0, 12, 12));
     }
 
     static void promise19NullComesAheadOfPlace() {
-        Boundary.finds(BUSY, NULL, s -> s.picture(0, 5, -1, 1, 1), s -> s.picture(0, 5, MAX, 1, 1),
+        finds(BUSY, NULL, s -> s.picture(0, 5, -1, 1, 1), s -> s.picture(0, 5, MAX, 1, 1),
                 s -> s.picture(1, 5, MIN, 12, 12));
     }
 
     static void promise19AllCellsAreItemsOfTheSheet() {
-        Boundary.finds(BUSY, PLACE, s -> s.picture(0, 2, -1, 1, 1), s -> s.picture(0, 2, 8, 1, 1),
+        finds(BUSY, PLACE, s -> s.picture(0, 2, -1, 1, 1), s -> s.picture(0, 2, 8, 1, 1),
                 s -> s.picture(0, 2, 3, 3, 2), s -> s.picture(1, 2, 0, 3, 3), s -> s.picture(0, 3, 0, 1, 1),
                 s -> s.picture(0, 2, MIN, 1, 1), s -> s.picture(0, 2, MAX, 1, 1));
         due(BUSY.make().picture(0, 2, 0, 1, 1), 1);
@@ -476,30 +486,30 @@ public final class BetweenBoundaryTest {
     }
 
     static void promise19PlaceAndCellsDoNotWrapAround() {
-        Boundary.finds(BUSY, PLACE, s -> s.picture(0, 2, MAX, 12, 12), s -> s.picture(0, 2, MAX - 143, 12, 12),
+        finds(BUSY, PLACE, s -> s.picture(0, 2, MAX, 12, 12), s -> s.picture(0, 2, MAX - 143, 12, 12),
                 s -> s.picture(0, 2, MIN, 12, 12), s -> s.picture(0, 2, -144, 12, 12), s -> s.picture(0, 2, -1, 2, 1));
     }
 
     static void promise19PlaceComesAheadOfTheNumbers() {
-        Boundary.finds(BUSY, PLACE, s -> s.picture(0, 4, 0, 5, 1), s -> s.picture(0, 1, 3, 2, 2));
+        finds(BUSY, PLACE, s -> s.picture(0, 4, 0, 5, 1), s -> s.picture(0, 1, 3, 2, 2));
     }
 
     static void promise19NumbersAre0To255() {
-        Boundary.leaves(BUSY, BAD, s -> s.picture(0, 4, 0, 1, 1), s -> s.picture(0, 4, 0, 4, 1),
+        leaves(BUSY, BAD, s -> s.picture(0, 4, 0, 1, 1), s -> s.picture(0, 4, 0, 4, 1),
                 s -> s.picture(1, 4, 0, 2, 2), s -> s.picture(0, 1, 0, 3, 1), s -> s.picture(0, 1, 1, 2, 1));
         ShapeBetween s = new ShapeBetween();
         for (int bad : new int[] {MIN, -1, 256, MAX}) {
-            Boundary.fill(s, 0, INTS, bad, 0, 255, bad);
+            fill(s, 0, INTS, bad, 0, 255, bad);
             due(s.picture(0, 0, 0, 1, 1), BAD);
             due(s.picture(0, 0, 0, 3, 1), BAD);
             due(s.picture(0, 0, 1, 1, 3), BAD);
             due(s.picture(0, 0, 3, 1, 1), BAD);
             due(s.picture(0, 0, 1, 2, 1), 1);
         }
-        Boundary.fill(s, 0, BYTES, 0, 127, 128, 0);
+        fill(s, 0, BYTES, 0, 127, 128, 0);
         due(s.picture(0, 0, 0, 2, 1), 1);
         due(s.picture(0, 0, 1, 2, 1), BAD);
-        Boundary.fill(s, 0, SHORTS, 256, 255, 0, -1);
+        fill(s, 0, SHORTS, 256, 255, 0, -1);
         due(s.picture(0, 0, 1, 2, 1), 1);
         due(s.picture(0, 0, 1, 3, 1), BAD);
         due(s.picture(0, 0, 0, 2, 1), BAD);
@@ -518,10 +528,10 @@ public final class BetweenBoundaryTest {
     }
 
     static void promise19ThatPictureAloneIsTold() {
-        Boundary.changesOnly(BUSY, 1, s -> s.picture(0, 4, 1, 3, 1), "status: 0", "picture 0 at");
-        Boundary.changesOnly(BUSY, 1, s -> s.picture(1, 4, 1, 3, 1), "status: 0", "picture 1 at");
-        ShapeBetween s = Boundary.covered();
-        Boundary.fill(s, 0, INTS, 9, 0, 255, 9);
+        changesOnly(BUSY, 1, s -> s.picture(0, 4, 1, 3, 1), "status: 0", "picture 0 at");
+        changesOnly(BUSY, 1, s -> s.picture(1, 4, 1, 3, 1), "status: 0", "picture 1 at");
+        ShapeBetween s = covered();
+        fill(s, 0, INTS, 9, 0, 255, 9);
         s.picture(0, 0, 1, 2, 1);
         s.picture(1, 0, 0, 1, 1);
         due(s.seen(0, 0, 0, 1), 0);
@@ -530,7 +540,7 @@ public final class BetweenBoundaryTest {
     }
 
     static void promise19ASmallerOneComesInPlaceOfAGreater() {
-        ShapeBetween s = Boundary.covered();
+        ShapeBetween s = covered();
         s.sheet(0, INTS, 144);
         for (int i = 0; i < 144; i++) {
             s.set(0, i, i);
@@ -544,40 +554,40 @@ public final class BetweenBoundaryTest {
     }
 
     static void promise19WhatBecomesOfTheSheetIsNoMatter() {
-        Boundary.changes(BUSY, 99, s -> s.set(2, 0, 99), "status: 0", "sheet 2 item 0: 99");
-        Boundary.changes(BUSY, -1, s -> s.set(2, 5, -1), "status: 0", "sheet 2 item 5: " + BAD);
-        Boundary.changesOnly(BUSY, 8, s -> s.drop(2), "status: 0", "count 0: 4", "sheet 2 ");
-        Boundary.changesOnly(BUSY, 1, s -> s.sheet(2, BYTES, 1), "status: 0", "sheet 2 ");
+        changes(BUSY, 99, s -> s.set(2, 0, 99), "status: 0", "sheet 2 item 0: 99");
+        changes(BUSY, -1, s -> s.set(2, 5, -1), "status: 0", "sheet 2 item 5: " + BAD);
+        changesOnly(BUSY, 8, s -> s.drop(2), "status: 0", "count 0: 4", "sheet 2 ");
+        changesOnly(BUSY, 1, s -> s.sheet(2, BYTES, 1), "status: 0", "sheet 2 ");
     }
 
     // ---- 20: seen
 
     static void promise20PlacesAre0To1000() {
-        Boundary.bounds(BUSY, BAD, (s, v) -> s.seen(v, 0, 0, 1), 0, 10, 1000, 30);
-        Boundary.bounds(BUSY, BAD, (s, v) -> s.seen(0, v, 0, 1), 0, 10, 1000, 40);
+        bounds(BUSY, BAD, (s, v) -> s.seen(v, 0, 0, 1), 0, 10, 1000, 30);
+        bounds(BUSY, BAD, (s, v) -> s.seen(0, v, 0, 1), 0, 10, 1000, 40);
     }
 
     static void promise20TicksAreOf1To100() {
-        Boundary.bounds(BUSY, BAD, (s, v) -> s.seen(0, 0, 0, v), 1, 10, 100, 10);
-        Boundary.bounds(BUSY, BAD, (s, v) -> s.seen(0, 0, v, v), 1, 1, 100, 1);
+        bounds(BUSY, BAD, (s, v) -> s.seen(0, 0, 0, v), 1, 10, 100, 10);
+        bounds(BUSY, BAD, (s, v) -> s.seen(0, 0, v, v), 1, 1, 100, 1);
     }
 
     static void promise20TicksAre0ToN() {
-        Boundary.bounds(BUSY, BAD, (s, v) -> s.seen(0, 0, v, 1), 0, 10, 1, 1);
-        Boundary.bounds(BUSY, BAD, (s, v) -> s.seen(0, 0, v, 100), 0, 10, 100, 1);
+        bounds(BUSY, BAD, (s, v) -> s.seen(0, 0, v, 1), 0, 10, 1, 1);
+        bounds(BUSY, BAD, (s, v) -> s.seen(0, 0, v, 100), 0, 10, 100, 1);
     }
 
     static void promise20BadComesAheadOfState() {
-        Boundary.bounds(NEW, BAD, (s, v) -> s.seen(v, 0, 0, 1), 0, STATE, 1000, STATE);
-        Boundary.bounds(NEW, BAD, (s, v) -> s.seen(0, v, 0, 1), 0, STATE, 1000, STATE);
-        Boundary.bounds(NEW, BAD, (s, v) -> s.seen(0, 0, v, 1), 0, STATE, 1, STATE);
-        Boundary.bounds(NEW, BAD, (s, v) -> s.seen(0, 0, 0, v), 1, STATE, 100, STATE);
+        bounds(NEW, BAD, (s, v) -> s.seen(v, 0, 0, 1), 0, STATE, 1000, STATE);
+        bounds(NEW, BAD, (s, v) -> s.seen(0, v, 0, 1), 0, STATE, 1000, STATE);
+        bounds(NEW, BAD, (s, v) -> s.seen(0, 0, v, 1), 0, STATE, 1, STATE);
+        bounds(NEW, BAD, (s, v) -> s.seen(0, 0, 0, v), 1, STATE, 100, STATE);
     }
 
     static void promise20BothPicturesMustBeTold() {
         for (int told = 0; told < 2; told++) {
-            ShapeBetween s = Boundary.covered();
-            Boundary.fill(s, 0, INTS, 7);
+            ShapeBetween s = covered();
+            fill(s, 0, INTS, 7);
             due(s.seen(0, 0, 0, 1), STATE);
             s.picture(told, 0, 0, 1, 1);
             due(s.seen(0, 0, 0, 1), STATE);
@@ -592,7 +602,7 @@ public final class BetweenBoundaryTest {
 
     static void promise20StateComesAheadOfNone() {
         ShapeBetween s = one(still(0, 0), still(10, 0), still(0, 10));
-        Boundary.fill(s, 0, INTS, 7);
+        fill(s, 0, INTS, 7);
         s.picture(0, 0, 0, 1, 1);
         due(s.in(11, 0, 0, 1), NONE);
         due(s.seen(11, 0, 0, 1), STATE);
@@ -602,10 +612,10 @@ public final class BetweenBoundaryTest {
     }
 
     static void promise20NoneIfItIsInNoThird() {
-        Boundary.leaves(BUSY, NONE, s -> s.seen(501, 500, 0, 1), s -> s.seen(1000, 1000, 1, 1));
-        Boundary.leaves(BUSY, 20, s -> s.seen(500, 500, 0, 1));
+        leaves(BUSY, NONE, s -> s.seen(501, 500, 0, 1), s -> s.seen(1000, 1000, 1, 1));
+        leaves(BUSY, 20, s -> s.seen(500, 500, 0, 1));
         ShapeBetween s = new ShapeBetween();
-        Boundary.fill(s, 0, INTS, 7);
+        fill(s, 0, INTS, 7);
         s.picture(0, 0, 0, 1, 1);
         s.picture(1, 0, 0, 1, 1);
         due(s.seen(0, 0, 0, 1), NONE);
@@ -621,8 +631,8 @@ public final class BetweenBoundaryTest {
 
     static void promise20TheLeastAndTheGreatestNumber() {
         for (int number : new int[] {0, 255}) {
-            ShapeBetween s = Boundary.covered();
-            Boundary.fill(s, 0, INTS, number);
+            ShapeBetween s = covered();
+            fill(s, 0, INTS, number);
             s.picture(0, 0, 0, 1, 1);
             s.picture(1, 0, 0, 1, 1);
             for (int k = 0; k <= 100; k++) {
@@ -634,7 +644,7 @@ public final class BetweenBoundaryTest {
     /** From column c on x times w is 1001 times c or more. */
     static void promise20CellsBeginWhereTheyAreTold() {
         for (int many = 1; many <= 12; many++) {
-            ShapeBetween s = Boundary.covered();
+            ShapeBetween s = covered();
             s.sheet(0, BYTES, 12);
             for (int i = 0; i < 12; i++) {
                 s.set(0, i, i + 1);
@@ -656,7 +666,7 @@ public final class BetweenBoundaryTest {
     }
 
     static void promise20CellsStandRowByRow() {
-        ShapeBetween s = Boundary.covered();
+        ShapeBetween s = covered();
         s.sheet(0, INTS, 144);
         for (int i = 0; i < 144; i++) {
             s.set(0, i, i);
@@ -679,7 +689,7 @@ public final class BetweenBoundaryTest {
     /** The place comes from the left cell of picture 0 and from the right one of picture 1. */
     static void promise20EachPictureWhereItIsFrom() {
         ShapeBetween s = one(new int[] {0, 0, 600, 0}, new int[] {400, 0, 1000, 0}, new int[] {0, 400, 600, 400});
-        Boundary.fill(s, 0, INTS, 10, 20, 100, 200);
+        fill(s, 0, INTS, 10, 20, 100, 200);
         s.picture(0, 0, 0, 2, 1);
         s.picture(1, 0, 2, 2, 1);
         due(s.seen(310, 10, 1, 2), (10 + 200) / 2);

@@ -1,17 +1,7 @@
 /** Promises 21 and 22 at their boundaries: two rows of POINTS, paired. */
-public final class RowsBoundaryTest {
-    private static final int NONE = Boundary.NONE, BAD = Boundary.BAD, NULL = Boundary.NULL, PLACE = Boundary.PLACE;
-    private static final int MIN = Boundary.MIN, MAX = Boundary.MAX;
-    private static final int BYTES = Boundary.BYTES, SHORTS = Boundary.SHORTS, INTS = Boundary.INTS;
-    private static final Boundary.World NEW = Boundary.World.NEW, BUSY = Boundary.World.BUSY;
-    private static final Boundary.World BRIMFUL = Boundary.World.BRIMFUL;
-
+public final class RowsBoundaryTest extends Boundary {
     public static void main(String[] args) {
-        Boundary.run(RowsBoundaryTest.class);
-    }
-
-    private static void due(int got, int want) {
-        Boundary.due(got, want);
+        run(RowsBoundaryTest.class);
     }
 
     /** Row a in SHEET 0, row b in SHEET 1: the x of each POINT, y being 0. */
@@ -56,15 +46,15 @@ public final class RowsBoundaryTest {
     // ---- 21: pairs
 
     static void promise21SheetsAre0To7() {
-        Boundary.bounds(BUSY, BAD, (s, v) -> s.pairs(v, 1, 0, 1, 0), 0, 0, 7, NULL);
-        Boundary.bounds(BUSY, BAD, (s, v) -> s.pairs(0, 1, v, 1, 0), 0, 0, 7, NULL);
-        Boundary.bounds(BRIMFUL, BAD, (s, v) -> s.pairs(v, 1, 0, 1, 0), 0, 0, 7, PLACE);
-        Boundary.bounds(BRIMFUL, BAD, (s, v) -> s.pairs(0, 1, v, 1, 0), 0, 0, 7, PLACE);
+        bounds(BUSY, BAD, (s, v) -> s.pairs(v, 1, 0, 1, 0), 0, 0, 7, NULL);
+        bounds(BUSY, BAD, (s, v) -> s.pairs(0, 1, v, 1, 0), 0, 0, 7, NULL);
+        bounds(BRIMFUL, BAD, (s, v) -> s.pairs(v, 1, 0, 1, 0), 0, 0, 7, PLACE);
+        bounds(BRIMFUL, BAD, (s, v) -> s.pairs(0, 1, v, 1, 0), 0, 0, 7, PLACE);
     }
 
     static void promise21RowsHave1To30Points() {
-        Boundary.bounds(BUSY, BAD, (s, v) -> s.pairs(2, v, 0, 1, 0), 1, 27, 30, PLACE);
-        Boundary.bounds(BUSY, BAD, (s, v) -> s.pairs(0, 1, 2, v, 0), 1, 27, 30, PLACE);
+        bounds(BUSY, BAD, (s, v) -> s.pairs(2, v, 0, 1, 0), 1, 27, 30, PLACE);
+        bounds(BUSY, BAD, (s, v) -> s.pairs(0, 1, 2, v, 0), 1, 27, 30, PLACE);
         ShapeBetween s = new ShapeBetween();
         s.sheet(0, INTS, 144);
         due(s.pairs(0, 30, 0, 30, 1), 30);
@@ -78,28 +68,28 @@ public final class RowsBoundaryTest {
     }
 
     static void promise21WhatIs0To3() {
-        Boundary.bounds(BUSY, BAD, (s, v) -> s.pairs(2, 1, 0, 1, v), 0, 27, 3, 0);
+        bounds(BUSY, BAD, (s, v) -> s.pairs(2, 1, 0, 1, v), 0, 27, 3, 0);
     }
 
     static void promise21BadComesAheadOfFindings() {
-        Boundary.leaves(BUSY, BAD, s -> s.pairs(5, 0, 2, 1, 0), s -> s.pairs(5, 1, 2, 31, 0),
+        leaves(BUSY, BAD, s -> s.pairs(5, 0, 2, 1, 0), s -> s.pairs(5, 1, 2, 31, 0),
                 s -> s.pairs(5, 1, 2, 1, 4), s -> s.pairs(5, 1, 2, 1, -1), s -> s.pairs(5, 1, 8, 1, 0),
                 s -> s.pairs(-1, 1, 5, 1, 0), s -> s.pairs(0, 3, 2, 1, 4), s -> s.pairs(0, 3, 2, 0, 0),
                 s -> s.pairs(MAX, MAX, MAX, MAX, MAX), s -> s.pairs(MIN, MIN, MIN, MIN, MIN));
     }
 
     static void promise21AMissingSheetIsNull() {
-        Boundary.finds(BUSY, NULL, s -> s.pairs(5, 1, 2, 1, 0), s -> s.pairs(2, 1, 5, 1, 0),
+        finds(BUSY, NULL, s -> s.pairs(5, 1, 2, 1, 0), s -> s.pairs(2, 1, 5, 1, 0),
                 s -> s.pairs(5, 1, 5, 1, 0), s -> s.pairs(5, 30, 7, 30, 3));
     }
 
     static void promise21NullComesAheadOfPlace() {
-        Boundary.finds(BUSY, NULL, s -> s.pairs(0, 3, 5, 1, 0), s -> s.pairs(5, 1, 0, 3, 0),
+        finds(BUSY, NULL, s -> s.pairs(0, 3, 5, 1, 0), s -> s.pairs(5, 1, 0, 3, 0),
                 s -> s.pairs(3, 1, 5, 1, 0));
     }
 
     static void promise21RowsAreItemsOfTheirSheets() {
-        Boundary.finds(BUSY, PLACE, s -> s.pairs(0, 3, 2, 1, 0), s -> s.pairs(2, 1, 0, 3, 0),
+        finds(BUSY, PLACE, s -> s.pairs(0, 3, 2, 1, 0), s -> s.pairs(2, 1, 0, 3, 0),
                 s -> s.pairs(2, 5, 2, 1, 0), s -> s.pairs(3, 1, 2, 1, 0), s -> s.pairs(2, 1, 3, 1, 0));
         due(BUSY.make().pairs(0, 2, 2, 4, 1), 4);
         for (int lane = 0; lane < 3; lane++) {
@@ -125,8 +115,8 @@ public final class RowsBoundaryTest {
 
     static void promise21PlaceComesAheadOfTheItems() {
         ShapeBetween s = new ShapeBetween();
-        Boundary.fill(s, 0, INTS, -1, 1001);
-        Boundary.fill(s, 1, INTS, 5, 5);
+        fill(s, 0, INTS, -1, 1001);
+        fill(s, 1, INTS, 5, 5);
         due(s.pairs(0, 2, 1, 1, 0), PLACE);
         due(s.pairs(0, 1, 1, 2, 0), PLACE);
         due(s.pairs(1, 2, 0, 1, 0), PLACE);
@@ -137,9 +127,9 @@ public final class RowsBoundaryTest {
     static void promise21ItemsAre0To1000() {
         for (int bad : new int[] {MIN, -1, 1001, MAX}) {
             ShapeBetween s = new ShapeBetween();
-            Boundary.fill(s, 0, INTS, 0, 1000, 1000, 0);
+            fill(s, 0, INTS, 0, 1000, 1000, 0);
             for (int i = 0; i < 4; i++) {
-                Boundary.fill(s, 1, INTS, 0, 1000, 1000, 0);
+                fill(s, 1, INTS, 0, 1000, 1000, 0);
                 due(s.pairs(1, 2, 0, 2, 0), 0);
                 s.set(1, i, bad);
                 due(s.pairs(1, 2, 0, 2, 0), BAD);
@@ -180,24 +170,24 @@ public final class RowsBoundaryTest {
 
     static void promise21RowsMayBeOfTwoLanes() {
         ShapeBetween s = new ShapeBetween();
-        Boundary.fill(s, 0, BYTES, 100, 27);
-        Boundary.fill(s, 1, SHORTS, 1000, 0);
-        Boundary.fill(s, 2, INTS, 101, 29);
+        fill(s, 0, BYTES, 100, 27);
+        fill(s, 1, SHORTS, 1000, 0);
+        fill(s, 2, INTS, 101, 29);
         due(s.pairs(0, 1, 1, 1, 0), 927);
         due(s.pairs(1, 1, 2, 1, 0), 928);
         due(s.pairs(2, 1, 0, 1, 0), 3);
     }
 
     static void promise21ItChangesNothingButStatus() {
-        Boundary.clears(BUSY, 27, s -> s.pairs(2, 1, 0, 1, 0));
-        Boundary.clears(BUSY, 0, s -> s.pairs(2, 4, 2, 4, 0), s -> s.pairs(0, 1, 0, 1, 3));
-        Boundary.clears(BUSY, 4, s -> s.pairs(0, 2, 2, 4, 1));
+        clears(BUSY, 27, s -> s.pairs(2, 1, 0, 1, 0));
+        clears(BUSY, 0, s -> s.pairs(2, 4, 2, 4, 0), s -> s.pairs(0, 1, 0, 1, 3));
+        clears(BUSY, 4, s -> s.pairs(0, 2, 2, 4, 1));
     }
 
     static void promise21TheFirstPairIsCounted() {
         ShapeBetween s = new ShapeBetween();
-        Boundary.fill(s, 0, INTS, 0, 1000, 5, 5);
-        Boundary.fill(s, 1, INTS, 1000, 0, 8, 9);
+        fill(s, 0, INTS, 0, 1000, 5, 5);
+        fill(s, 1, INTS, 1000, 0, 8, 9);
         due(s.pairs(0, 1, 1, 1, 0), 2000);
         due(s.pairs(0, 1, 1, 1, 1), 1);
         due(s.pairs(0, 1, 1, 1, 2), 0);
@@ -267,15 +257,15 @@ public final class RowsBoundaryTest {
     // ---- 22: pair
 
     static void promise22SheetsAre0To7() {
-        Boundary.bounds(BUSY, BAD, (s, v) -> s.pair(v, 1, 0, 1, 0), 0, 0, 7, NULL);
-        Boundary.bounds(BUSY, BAD, (s, v) -> s.pair(0, 1, v, 1, 0), 0, 0, 7, NULL);
-        Boundary.bounds(BRIMFUL, BAD, (s, v) -> s.pair(v, 1, 0, 1, 0), 0, 0, 7, PLACE);
-        Boundary.bounds(BRIMFUL, BAD, (s, v) -> s.pair(0, 1, v, 1, 0), 0, 0, 7, PLACE);
+        bounds(BUSY, BAD, (s, v) -> s.pair(v, 1, 0, 1, 0), 0, 0, 7, NULL);
+        bounds(BUSY, BAD, (s, v) -> s.pair(0, 1, v, 1, 0), 0, 0, 7, NULL);
+        bounds(BRIMFUL, BAD, (s, v) -> s.pair(v, 1, 0, 1, 0), 0, 0, 7, PLACE);
+        bounds(BRIMFUL, BAD, (s, v) -> s.pair(0, 1, v, 1, 0), 0, 0, 7, PLACE);
     }
 
     static void promise22RowsHave1To30Points() {
-        Boundary.bounds(BUSY, BAD, (s, v) -> s.pair(2, v, 0, 1, 0), 1, 0, 30, PLACE);
-        Boundary.bounds(BUSY, BAD, (s, v) -> s.pair(0, 1, 2, v, 0), 1, 0, 30, PLACE);
+        bounds(BUSY, BAD, (s, v) -> s.pair(2, v, 0, 1, 0), 1, 0, 30, PLACE);
+        bounds(BUSY, BAD, (s, v) -> s.pair(0, 1, 2, v, 0), 1, 0, 30, PLACE);
         ShapeBetween s = new ShapeBetween();
         s.sheet(0, INTS, 144);
         due(s.pair(0, 30, 0, 30, 29), 2929);
@@ -286,22 +276,22 @@ public final class RowsBoundaryTest {
     }
 
     static void promise22BadComesAheadOfFindings() {
-        Boundary.leaves(BUSY, BAD, s -> s.pair(5, 0, 2, 1, 0), s -> s.pair(5, 1, 2, 31, 0), s -> s.pair(5, 1, 8, 1, 0),
+        leaves(BUSY, BAD, s -> s.pair(5, 0, 2, 1, 0), s -> s.pair(5, 1, 2, 31, 0), s -> s.pair(5, 1, 8, 1, 0),
                 s -> s.pair(-1, 1, 5, 1, 0), s -> s.pair(0, 3, 2, 0, 0), s -> s.pair(MAX, MAX, MAX, MAX, MAX),
                 s -> s.pair(MIN, MIN, MIN, MIN, MIN));
     }
 
     static void promise22AMissingSheetIsNull() {
-        Boundary.finds(NEW, NULL, s -> s.pair(0, 1, 0, 1, 0));
-        Boundary.finds(BUSY, NULL, s -> s.pair(5, 1, 2, 1, 0), s -> s.pair(2, 1, 5, 1, 0), s -> s.pair(5, 1, 5, 1, 0));
+        finds(NEW, NULL, s -> s.pair(0, 1, 0, 1, 0));
+        finds(BUSY, NULL, s -> s.pair(5, 1, 2, 1, 0), s -> s.pair(2, 1, 5, 1, 0), s -> s.pair(5, 1, 5, 1, 0));
     }
 
     static void promise22NullComesAheadOfPlace() {
-        Boundary.finds(BUSY, NULL, s -> s.pair(0, 3, 5, 1, 0), s -> s.pair(5, 1, 0, 3, 0), s -> s.pair(3, 1, 5, 1, 0));
+        finds(BUSY, NULL, s -> s.pair(0, 3, 5, 1, 0), s -> s.pair(5, 1, 0, 3, 0), s -> s.pair(3, 1, 5, 1, 0));
     }
 
     static void promise22RowsAreItemsOfTheirSheets() {
-        Boundary.finds(BUSY, PLACE, s -> s.pair(0, 3, 2, 1, 0), s -> s.pair(2, 1, 0, 3, 0), s -> s.pair(2, 5, 2, 1, 0),
+        finds(BUSY, PLACE, s -> s.pair(0, 3, 2, 1, 0), s -> s.pair(2, 1, 0, 3, 0), s -> s.pair(2, 5, 2, 1, 0),
                 s -> s.pair(3, 1, 2, 1, 0), s -> s.pair(2, 1, 3, 1, 0));
         due(BUSY.make().pair(2, 4, 0, 2, 3), 301);
     }
@@ -325,8 +315,8 @@ public final class RowsBoundaryTest {
 
     static void promise22RefusalsComeAheadOfNone() {
         ShapeBetween s = new ShapeBetween();
-        Boundary.fill(s, 0, INTS, 5, 1001);
-        Boundary.fill(s, 1, INTS, 5, 5);
+        fill(s, 0, INTS, 5, 1001);
+        fill(s, 1, INTS, 5, 5);
         for (int i : new int[] {MIN, -1, 1, MAX}) {
             due(s.pair(0, 0, 1, 1, i), BAD);
             due(s.pair(2, 1, 1, 1, i), NULL);
@@ -337,10 +327,10 @@ public final class RowsBoundaryTest {
     }
 
     static void promise22NoneBelow0AndBehindTheLast() {
-        Boundary.clears(BUSY, NONE, s -> s.pair(2, 4, 0, 2, -1), s -> s.pair(2, 4, 0, 2, 4), s -> s.pair(2, 4, 0, 2, MIN),
+        clears(BUSY, NONE, s -> s.pair(2, 4, 0, 2, -1), s -> s.pair(2, 4, 0, 2, 4), s -> s.pair(2, 4, 0, 2, MIN),
                 s -> s.pair(2, 4, 0, 2, MAX));
-        Boundary.clears(BUSY, 0, s -> s.pair(2, 4, 0, 2, 0));
-        Boundary.clears(BUSY, 301, s -> s.pair(2, 4, 0, 2, 3));
+        clears(BUSY, 0, s -> s.pair(2, 4, 0, 2, 0));
+        clears(BUSY, 301, s -> s.pair(2, 4, 0, 2, 3));
     }
 
     static void promise22BothWentIfThatCanBe() {

@@ -1,18 +1,7 @@
 /** Promises 1 to 5 at their boundaries: a new object, and the SHEETS. */
-public final class SheetsBoundaryTest {
-    private static final int NONE = Boundary.NONE, BAD = Boundary.BAD, STATE = Boundary.STATE;
-    private static final int NULL = Boundary.NULL, PLACE = Boundary.PLACE, SIZE = Boundary.SIZE, STORE = Boundary.STORE;
-    private static final int MIN = Boundary.MIN, MAX = Boundary.MAX;
-    private static final int BYTES = Boundary.BYTES, SHORTS = Boundary.SHORTS, INTS = Boundary.INTS;
-    private static final Boundary.World NEW = Boundary.World.NEW, BUSY = Boundary.World.BUSY;
-    private static final Boundary.World BRIMFUL = Boundary.World.BRIMFUL;
-
+public final class SheetsBoundaryTest extends Boundary {
     public static void main(String[] args) {
-        Boundary.run(SheetsBoundaryTest.class);
-    }
-
-    private static void due(int got, int want) {
-        Boundary.due(got, want);
+        run(SheetsBoundaryTest.class);
     }
 
     // ---- 1: a new object
@@ -21,40 +10,40 @@ public final class SheetsBoundaryTest {
         due(new ShapeBetween().count(0), 0);
         for (int sheet = 0; sheet < 8; sheet++) {
             int missing = sheet;
-            Boundary.finds(NEW, NULL, s -> s.drop(missing), s -> s.set(missing, 0, 0),
+            finds(NEW, NULL, s -> s.drop(missing), s -> s.set(missing, 0, 0),
                     s -> s.copy(missing, 0, missing, 0, 0), s -> s.picture(0, missing, 0, 1, 1),
                     s -> s.pairs(missing, 1, missing, 1, 0), s -> s.pair(missing, 1, missing, 1, 0));
         }
     }
 
     static void promise01ThereIsNoMark() {
-        Boundary.leaves(NEW, 0, s -> s.count(1));
-        Boundary.leaves(NEW, BAD, s -> s.at(0, 0, 1, 0), s -> s.move(0, 0, 0, 0), s -> s.third(0, 1, 2));
+        leaves(NEW, 0, s -> s.count(1));
+        leaves(NEW, BAD, s -> s.at(0, 0, 1, 0), s -> s.move(0, 0, 0, 0), s -> s.third(0, 1, 2));
         due(new ShapeBetween().mark(5, 5, 5, 5), 0);
     }
 
     static void promise01ThereIsNoThird() {
-        Boundary.leaves(NEW, 0, s -> s.count(2), s -> s.count(3), s -> s.count(4), s -> s.count(5), s -> s.count(6),
+        leaves(NEW, 0, s -> s.count(2), s -> s.count(3), s -> s.count(4), s -> s.count(5), s -> s.count(6),
                 s -> s.sides(1), s -> s.sides(24));
-        Boundary.leaves(NEW, BAD, s -> s.told(0, 0), s -> s.folds(0, 1), s -> s.kind(0), s -> s.as(0, 0),
+        leaves(NEW, BAD, s -> s.told(0, 0), s -> s.folds(0, 1), s -> s.kind(0), s -> s.as(0, 0),
                 s -> s.ask(0, 0));
-        Boundary.leaves(NEW, NONE, s -> s.first(1, 0), s -> s.first(100, 1), s -> s.in(0, 0, 0, 1),
+        leaves(NEW, NONE, s -> s.first(1, 0), s -> s.first(100, 1), s -> s.in(0, 0, 0, 1),
                 s -> s.from(0, 0, 0, 1, 0));
     }
 
     static void promise01ThereIsNoKey() {
-        Boundary.leaves(NEW, 0, s -> s.count(7), s -> s.unkey(), s -> s.eased(0));
-        Boundary.leaves(NEW, 1, s -> s.eased(1));
-        Boundary.leaves(NEW, 999, s -> s.eased(999));
-        Boundary.leaves(NEW, 1000, s -> s.eased(1000));
+        leaves(NEW, 0, s -> s.count(7), s -> s.unkey(), s -> s.eased(0));
+        leaves(NEW, 1, s -> s.eased(1));
+        leaves(NEW, 999, s -> s.eased(999));
+        leaves(NEW, 1000, s -> s.eased(1000));
     }
 
     static void promise01ThereIsNoPicture() {
-        Boundary.leaves(NEW, STATE, s -> s.seen(0, 0, 0, 1), s -> s.seen(1000, 1000, 100, 100));
+        leaves(NEW, STATE, s -> s.seen(0, 0, 0, 1), s -> s.seen(1000, 1000, 100, 100));
     }
 
     static void promise01TheTraceIsEmptyAndNothingFound() {
-        Boundary.leaves(NEW, NONE, s -> s.trace(0), s -> s.trace(15));
+        leaves(NEW, NONE, s -> s.trace(0), s -> s.trace(15));
         due(new ShapeBetween().status(), 0);
     }
 
@@ -74,9 +63,9 @@ public final class SheetsBoundaryTest {
     // ---- 2: sheet
 
     static void promise02SheetsAre0To7() {
-        Boundary.bounds(NEW, BAD, (s, v) -> s.sheet(v, INTS, 3), 0, 3, 7, 3);
-        Boundary.bounds(BUSY, BAD, (s, v) -> s.sheet(v, INTS, 3), 0, 3, 7, 3);
-        Boundary.bounds(BRIMFUL, BAD, (s, v) -> s.sheet(v, INTS, 3), 0, 3, 7, 3);
+        bounds(NEW, BAD, (s, v) -> s.sheet(v, INTS, 3), 0, 3, 7, 3);
+        bounds(BUSY, BAD, (s, v) -> s.sheet(v, INTS, 3), 0, 3, 7, 3);
+        bounds(BRIMFUL, BAD, (s, v) -> s.sheet(v, INTS, 3), 0, 3, 7, 3);
         ShapeBetween s = new ShapeBetween();
         for (int sheet = 0; sheet < 8; sheet++) {
             due(s.sheet(sheet, sheet % 3, sheet), sheet);
@@ -85,8 +74,8 @@ public final class SheetsBoundaryTest {
     }
 
     static void promise02LanesAre0To2() {
-        Boundary.bounds(NEW, BAD, (s, v) -> s.sheet(0, v, 3), 0, 3, 2, 3);
-        Boundary.bounds(BUSY, BAD, (s, v) -> s.sheet(0, v, 3), 0, 3, 2, 3);
+        bounds(NEW, BAD, (s, v) -> s.sheet(0, v, 3), 0, 3, 2, 3);
+        bounds(BUSY, BAD, (s, v) -> s.sheet(0, v, 3), 0, 3, 2, 3);
         int[] kept = {112, 4464, 70000};
         for (int lane = 0; lane < 3; lane++) {
             ShapeBetween s = new ShapeBetween();
@@ -100,45 +89,45 @@ public final class SheetsBoundaryTest {
             int of = lane;
             due(new ShapeBetween().sheet(0, lane, 143), 143);
             due(new ShapeBetween().sheet(0, lane, 144), 144);
-            Boundary.leaves(NEW, BAD, s -> s.sheet(0, of, 145), s -> s.sheet(0, of, MAX));
-            Boundary.leaves(BUSY, BAD, s -> s.sheet(0, of, 145), s -> s.sheet(7, of, MAX));
+            leaves(NEW, BAD, s -> s.sheet(0, of, 145), s -> s.sheet(0, of, MAX));
+            leaves(BUSY, BAD, s -> s.sheet(0, of, 145), s -> s.sheet(7, of, MAX));
         }
     }
 
     static void promise02FewerThanNoneIsSize() {
-        Boundary.finds(NEW, SIZE, s -> s.sheet(0, BYTES, -1), s -> s.sheet(7, INTS, MIN));
-        Boundary.finds(BUSY, SIZE, s -> s.sheet(0, BYTES, -1), s -> s.sheet(1, INTS, MIN), s -> s.sheet(5, 1, -145));
+        finds(NEW, SIZE, s -> s.sheet(0, BYTES, -1), s -> s.sheet(7, INTS, MIN));
+        finds(BUSY, SIZE, s -> s.sheet(0, BYTES, -1), s -> s.sheet(1, INTS, MIN), s -> s.sheet(5, 1, -145));
         due(NEW.make().sheet(0, BYTES, 0), 0);
     }
 
     static void promise02BadComesAheadOfSize() {
-        Boundary.leaves(BUSY, BAD, s -> s.sheet(8, BYTES, -1), s -> s.sheet(-1, BYTES, -1), s -> s.sheet(0, 3, -1),
+        leaves(BUSY, BAD, s -> s.sheet(8, BYTES, -1), s -> s.sheet(-1, BYTES, -1), s -> s.sheet(0, 3, -1),
                 s -> s.sheet(0, -1, MIN), s -> s.sheet(MAX, MAX, MIN), s -> s.sheet(MIN, MIN, MIN));
     }
 
     static void promise02NoItemsIsASheetToo() {
-        Boundary.changes(BUSY, 0, s -> s.sheet(5, SHORTS, 0), "status: 0", "count 0: 6", "sheet 5 lane: 1",
+        changes(BUSY, 0, s -> s.sheet(5, SHORTS, 0), "status: 0", "count 0: 6", "sheet 5 lane: 1",
                 "sheet 5 items: 0");
-        Boundary.finds(BUSY, PLACE, s -> s.set(3, 0, 0));
+        finds(BUSY, PLACE, s -> s.set(3, 0, 0));
     }
 
     static void promise02ItemsAre0AtFirst() {
         for (int lane = 0; lane < 3; lane++) {
             ShapeBetween s = new ShapeBetween();
             s.sheet(0, lane, 144);
-            due(Boundary.sum(s, 0, lane, 144), 0);
+            due(sum(s, 0, lane, 144), 0);
         }
     }
 
     static void promise02ItComesInPlaceOfWhatIsThere() {
-        Boundary.changes(BUSY, 3, s -> s.sheet(1, BYTES, 3), "status: 0", "sheet 1 lane: 0", "sheet 1 item 0: 0",
+        changes(BUSY, 3, s -> s.sheet(1, BYTES, 3), "status: 0", "sheet 1 lane: 0", "sheet 1 item 0: 0",
                 "sheet 1 item 1: 0", "sheet 1 item 2: 0", "sheet 1 item 3: gone", "sheet 1 item 4: gone",
                 "sheet 1 item 5: gone", "sheet 1 items: 3");
-        Boundary.changes(BUSY, 4, s -> s.sheet(0, BYTES, 4), "status: 0", "sheet 0 item 0: 0", "sheet 0 item 1: 0",
+        changes(BUSY, 4, s -> s.sheet(0, BYTES, 4), "status: 0", "sheet 0 item 0: 0", "sheet 0 item 1: 0",
                 "sheet 0 item 2: 0", "sheet 0 item 3: 0");
-        Boundary.changes(BUSY, 0, s -> s.sheet(0, BYTES, 0), "status: 0", "sheet 0 item 0: gone",
+        changes(BUSY, 0, s -> s.sheet(0, BYTES, 0), "status: 0", "sheet 0 item 0: gone",
                 "sheet 0 item 1: gone", "sheet 0 item 2: gone", "sheet 0 item 3: gone", "sheet 0 items: 0");
-        Boundary.changes(BRIMFUL, 0, s -> s.sheet(7, BYTES, 0), "status: 0");
+        changes(BRIMFUL, 0, s -> s.sheet(7, BYTES, 0), "status: 0");
     }
 
     static void promise02OldItemsDoNotComeBack() {
@@ -147,14 +136,14 @@ public final class SheetsBoundaryTest {
         for (int i = 0; i < 144; i++) {
             s.set(0, i, 1);
         }
-        due(Boundary.sum(s, 0, INTS, 144), 144);
+        due(sum(s, 0, INTS, 144), 144);
         s.sheet(0, INTS, 2);
         s.sheet(0, INTS, 144);
-        due(Boundary.sum(s, 0, INTS, 144), 0);
+        due(sum(s, 0, INTS, 144), 0);
         s.set(0, 143, 9);
         s.drop(0);
         s.sheet(0, SHORTS, 144);
-        due(Boundary.sum(s, 0, SHORTS, 144), 0);
+        due(sum(s, 0, SHORTS, 144), 0);
     }
 
     static void promise02FullSheetsStandSideBySide() {
@@ -167,35 +156,35 @@ public final class SheetsBoundaryTest {
             due(s.set(sheet, 143, 20 + sheet), 20 + sheet);
         }
         for (int sheet = 0; sheet < 6; sheet++) {
-            due(Boundary.item(s, sheet, INTS, 0), 10 + sheet);
-            due(Boundary.item(s, sheet, INTS, 143), 20 + sheet);
-            due(Boundary.sum(s, sheet, INTS, 144), 30 + 2 * sheet);
+            due(item(s, sheet, INTS, 0), 10 + sheet);
+            due(item(s, sheet, INTS, 143), 20 + sheet);
+            due(sum(s, sheet, INTS, 144), 30 + 2 * sheet);
         }
     }
 
     // ---- 3: set
 
     static void promise03SheetsAre0To7() {
-        Boundary.bounds(NEW, BAD, (s, v) -> s.set(v, 0, 1), 0, NULL, 7, NULL);
-        Boundary.bounds(BRIMFUL, BAD, (s, v) -> s.set(v, 0, 1), 0, 1, 7, PLACE);
+        bounds(NEW, BAD, (s, v) -> s.set(v, 0, 1), 0, NULL, 7, NULL);
+        bounds(BRIMFUL, BAD, (s, v) -> s.set(v, 0, 1), 0, 1, 7, PLACE);
     }
 
     static void promise03BadComesAheadOfPlace() {
-        Boundary.leaves(BUSY, BAD, s -> s.set(8, -1, 1), s -> s.set(-1, 200, 1), s -> s.set(MAX, MAX, MAX),
+        leaves(BUSY, BAD, s -> s.set(8, -1, 1), s -> s.set(-1, 200, 1), s -> s.set(MAX, MAX, MAX),
                 s -> s.set(MIN, MIN, MIN));
     }
 
     static void promise03AMissingSheetIsNull() {
-        Boundary.finds(BUSY, NULL, s -> s.set(5, 0, 1), s -> s.set(7, 0, 1));
+        finds(BUSY, NULL, s -> s.set(5, 0, 1), s -> s.set(7, 0, 1));
     }
 
     static void promise03NullComesAheadOfPlace() {
-        Boundary.finds(BUSY, NULL, s -> s.set(5, -1, 1), s -> s.set(5, 144, 1), s -> s.set(5, MIN, 1),
+        finds(BUSY, NULL, s -> s.set(5, -1, 1), s -> s.set(5, 144, 1), s -> s.set(5, MIN, 1),
                 s -> s.set(5, MAX, 1));
     }
 
     static void promise03PlacesAreThoseOfTheSheet() {
-        Boundary.finds(BUSY, PLACE, s -> s.set(0, -1, 9), s -> s.set(0, 4, 9), s -> s.set(0, MIN, 9),
+        finds(BUSY, PLACE, s -> s.set(0, -1, 9), s -> s.set(0, 4, 9), s -> s.set(0, MIN, 9),
                 s -> s.set(0, MAX, 9), s -> s.set(1, 6, 9), s -> s.set(2, 8, 9), s -> s.set(2, 143, 9));
         due(BUSY.make().set(0, 0, 9), 9);
         due(BUSY.make().set(0, 3, 9), 9);
@@ -206,14 +195,14 @@ public final class SheetsBoundaryTest {
     }
 
     static void promise03AnEmptySheetHasNoPlace() {
-        Boundary.finds(BUSY, PLACE, s -> s.set(3, 0, 9), s -> s.set(3, -1, 9));
+        finds(BUSY, PLACE, s -> s.set(3, 0, 9), s -> s.set(3, -1, 9));
     }
 
     static void promise03JustThatItemChanges() {
-        Boundary.changes(BUSY, 9, s -> s.set(0, 0, 9), "status: 0", "sheet 0 item 0: 9");
-        Boundary.changes(BUSY, 9, s -> s.set(0, 3, 9), "status: 0", "sheet 0 item 3: 9");
-        Boundary.changes(BUSY, 999, s -> s.set(1, 5, 999), "status: 0", "sheet 1 item 5: 999");
-        Boundary.changes(BUSY, 1000, s -> s.set(2, 7, 1000), "status: 0", "sheet 2 item 7: 1000");
+        changes(BUSY, 9, s -> s.set(0, 0, 9), "status: 0", "sheet 0 item 0: 9");
+        changes(BUSY, 9, s -> s.set(0, 3, 9), "status: 0", "sheet 0 item 3: 9");
+        changes(BUSY, 999, s -> s.set(1, 5, 999), "status: 0", "sheet 1 item 5: 999");
+        changes(BUSY, 1000, s -> s.set(2, 7, 1000), "status: 0", "sheet 2 item 7: 1000");
     }
 
     static void promise03BytesHaveEightBits() {
@@ -245,67 +234,67 @@ public final class SheetsBoundaryTest {
     /** What stands there is what was answered, not what was given: the calls that read it see the lowest bits alone. */
     static void promise03WhatItIsThenIsRead() {
         ShapeBetween s = new ShapeBetween();
-        Boundary.fill(s, 0, BYTES, 255, 256 + 7, 512 + 100);
-        due(Boundary.item(s, 0, BYTES, 0), BAD);
-        due(Boundary.item(s, 0, BYTES, 1), 7);
-        due(Boundary.item(s, 0, BYTES, 2), 100);
+        fill(s, 0, BYTES, 255, 256 + 7, 512 + 100);
+        due(item(s, 0, BYTES, 0), BAD);
+        due(item(s, 0, BYTES, 1), 7);
+        due(item(s, 0, BYTES, 2), 100);
         due(s.picture(0, 0, 0, 1, 1), BAD);
         due(s.picture(0, 0, 1, 1, 1), 1);
-        Boundary.fill(s, 1, SHORTS, 65536 + 1000, 32768, -65536 + 3);
-        due(Boundary.item(s, 1, SHORTS, 0), 1000);
-        due(Boundary.item(s, 1, SHORTS, 1), BAD);
-        due(Boundary.item(s, 1, SHORTS, 2), 3);
-        Boundary.fill(s, 2, INTS, 65536, MIN);
-        due(Boundary.item(s, 2, INTS, 0), BAD);
-        due(Boundary.item(s, 2, INTS, 1), BAD);
+        fill(s, 1, SHORTS, 65536 + 1000, 32768, -65536 + 3);
+        due(item(s, 1, SHORTS, 0), 1000);
+        due(item(s, 1, SHORTS, 1), BAD);
+        due(item(s, 1, SHORTS, 2), 3);
+        fill(s, 2, INTS, 65536, MIN);
+        due(item(s, 2, INTS, 0), BAD);
+        due(item(s, 2, INTS, 1), BAD);
     }
 
     // ---- 4: copy
 
     static void promise04SheetsAre0To7() {
-        Boundary.bounds(NEW, BAD, (s, v) -> s.copy(v, 0, 0, 0, 0), 0, NULL, 7, NULL);
-        Boundary.bounds(NEW, BAD, (s, v) -> s.copy(0, 0, v, 0, 0), 0, NULL, 7, NULL);
-        Boundary.bounds(BRIMFUL, BAD, (s, v) -> s.copy(v, 0, 0, 0, 0), 0, 0, 7, 0);
-        Boundary.bounds(BRIMFUL, BAD, (s, v) -> s.copy(0, 0, v, 0, 0), 0, 0, 7, 0);
+        bounds(NEW, BAD, (s, v) -> s.copy(v, 0, 0, 0, 0), 0, NULL, 7, NULL);
+        bounds(NEW, BAD, (s, v) -> s.copy(0, 0, v, 0, 0), 0, NULL, 7, NULL);
+        bounds(BRIMFUL, BAD, (s, v) -> s.copy(v, 0, 0, 0, 0), 0, 0, 7, 0);
+        bounds(BRIMFUL, BAD, (s, v) -> s.copy(0, 0, v, 0, 0), 0, 0, 7, 0);
     }
 
     static void promise04BadComesAheadOfFindings() {
-        Boundary.leaves(BUSY, BAD, s -> s.copy(5, 0, 8, 0, 0), s -> s.copy(-1, 0, 5, 0, 0), s -> s.copy(8, 0, 1, 0, 0),
+        leaves(BUSY, BAD, s -> s.copy(5, 0, 8, 0, 0), s -> s.copy(-1, 0, 5, 0, 0), s -> s.copy(8, 0, 1, 0, 0),
                 s -> s.copy(0, -1, -1, -1, -1), s -> s.copy(MIN, MIN, MIN, MIN, MIN), s -> s.copy(MAX, MAX, MAX, MAX, MAX));
     }
 
     static void promise04AMissingSheetIsNull() {
-        Boundary.finds(BUSY, NULL, s -> s.copy(5, 0, 0, 0, 0), s -> s.copy(0, 0, 5, 0, 0), s -> s.copy(5, 0, 5, 0, 0),
+        finds(BUSY, NULL, s -> s.copy(5, 0, 0, 0, 0), s -> s.copy(0, 0, 5, 0, 0), s -> s.copy(5, 0, 5, 0, 0),
                 s -> s.copy(5, 0, 6, 0, 1), s -> s.copy(7, 0, 7, 0, 0));
     }
 
     static void promise04NullComesAheadOfStoreAndPlace() {
-        Boundary.finds(BUSY, NULL, s -> s.copy(5, -1, 0, 0, 0), s -> s.copy(0, 99, 5, 0, 1), s -> s.copy(1, 0, 5, -1, 0),
+        finds(BUSY, NULL, s -> s.copy(5, -1, 0, 0, 0), s -> s.copy(0, 99, 5, 0, 1), s -> s.copy(1, 0, 5, -1, 0),
                 s -> s.copy(5, 0, 1, 0, -1), s -> s.copy(5, MIN, 5, MAX, MIN));
     }
 
     static void promise04TwoLanesAreStore() {
-        Boundary.finds(BUSY, STORE, s -> s.copy(0, 0, 1, 0, 1), s -> s.copy(1, 0, 0, 0, 1), s -> s.copy(0, 0, 2, 0, 1),
+        finds(BUSY, STORE, s -> s.copy(0, 0, 1, 0, 1), s -> s.copy(1, 0, 0, 0, 1), s -> s.copy(0, 0, 2, 0, 1),
                 s -> s.copy(2, 0, 0, 0, 1), s -> s.copy(1, 0, 2, 0, 1), s -> s.copy(2, 0, 1, 0, 1));
     }
 
     static void promise04NoItemsOfTwoLanesAreStoreToo() {
-        Boundary.finds(BUSY, STORE, s -> s.copy(0, 0, 1, 0, 0), s -> s.copy(3, 0, 0, 0, 0), s -> s.copy(1, 6, 3, 0, 0));
+        finds(BUSY, STORE, s -> s.copy(0, 0, 1, 0, 0), s -> s.copy(3, 0, 0, 0, 0), s -> s.copy(1, 6, 3, 0, 0));
     }
 
     static void promise04StoreComesAheadOfPlace() {
-        Boundary.finds(BUSY, STORE, s -> s.copy(0, -1, 1, 0, 1), s -> s.copy(0, 0, 1, -1, 1), s -> s.copy(0, 0, 1, 0, -1),
+        finds(BUSY, STORE, s -> s.copy(0, -1, 1, 0, 1), s -> s.copy(0, 0, 1, -1, 1), s -> s.copy(0, 0, 1, 0, -1),
                 s -> s.copy(0, 5, 1, 0, 0), s -> s.copy(0, MAX, 1, MIN, MAX));
     }
 
     static void promise04OneSheetIsOfOneLane() {
-        Boundary.clears(BUSY, 4, s -> s.copy(0, 0, 0, 0, 4));
-        Boundary.clears(BUSY, 6, s -> s.copy(1, 0, 1, 0, 6));
-        Boundary.clears(BUSY, 8, s -> s.copy(2, 0, 2, 0, 8));
+        clears(BUSY, 4, s -> s.copy(0, 0, 0, 0, 4));
+        clears(BUSY, 6, s -> s.copy(1, 0, 1, 0, 6));
+        clears(BUSY, 8, s -> s.copy(2, 0, 2, 0, 8));
     }
 
     static void promise04TheFirstPlaceIsOneOfTheSheet() {
-        Boundary.finds(BUSY, PLACE, s -> s.copy(4, -1, 2, 0, 1), s -> s.copy(4, 4, 2, 0, 1), s -> s.copy(4, 3, 2, 0, 2),
+        finds(BUSY, PLACE, s -> s.copy(4, -1, 2, 0, 1), s -> s.copy(4, 4, 2, 0, 1), s -> s.copy(4, 3, 2, 0, 2),
                 s -> s.copy(4, 1, 2, 0, 4), s -> s.copy(4, MIN, 2, 0, 1), s -> s.copy(4, MAX, 2, 0, 1));
         due(BUSY.make().copy(4, 0, 2, 0, 1), 1);
         due(BUSY.make().copy(4, 3, 2, 0, 1), 1);
@@ -314,7 +303,7 @@ public final class SheetsBoundaryTest {
     }
 
     static void promise04TheSecondPlaceIsOneOfTheSheet() {
-        Boundary.finds(BUSY, PLACE, s -> s.copy(2, 0, 4, -1, 1), s -> s.copy(2, 0, 4, 4, 1), s -> s.copy(2, 0, 4, 3, 2),
+        finds(BUSY, PLACE, s -> s.copy(2, 0, 4, -1, 1), s -> s.copy(2, 0, 4, 4, 1), s -> s.copy(2, 0, 4, 3, 2),
                 s -> s.copy(2, 0, 4, 1, 4), s -> s.copy(2, 0, 4, MIN, 1), s -> s.copy(2, 0, 4, MAX, 1));
         due(BUSY.make().copy(2, 0, 4, 0, 1), 1);
         due(BUSY.make().copy(2, 0, 4, 3, 1), 1);
@@ -323,47 +312,47 @@ public final class SheetsBoundaryTest {
     }
 
     static void promise04FewerThanNoneIsPlace() {
-        Boundary.finds(BUSY, PLACE, s -> s.copy(2, 0, 4, 0, -1), s -> s.copy(2, 3, 4, 3, -1), s -> s.copy(2, 8, 4, 4, -1),
+        finds(BUSY, PLACE, s -> s.copy(2, 0, 4, 0, -1), s -> s.copy(2, 3, 4, 3, -1), s -> s.copy(2, 8, 4, 4, -1),
                 s -> s.copy(2, 0, 4, 0, MIN), s -> s.copy(2, 0, 2, 0, -1), s -> s.copy(3, 0, 3, 0, -1));
     }
 
     static void promise04MoreThanThereAreIsPlace() {
-        Boundary.finds(BUSY, PLACE, s -> s.copy(4, 0, 2, 0, 5), s -> s.copy(2, 0, 4, 0, 5), s -> s.copy(2, 0, 2, 0, 9),
+        finds(BUSY, PLACE, s -> s.copy(4, 0, 2, 0, 5), s -> s.copy(2, 0, 4, 0, 5), s -> s.copy(2, 0, 2, 0, 9),
                 s -> s.copy(2, 0, 4, 0, MAX), s -> s.copy(3, 0, 2, 0, 1), s -> s.copy(2, 0, 3, 0, 1));
     }
 
     static void promise04PlaceAndNumberDoNotWrapAround() {
-        Boundary.finds(BUSY, PLACE, s -> s.copy(2, 1, 4, 0, MAX), s -> s.copy(2, 0, 4, 1, MAX),
+        finds(BUSY, PLACE, s -> s.copy(2, 1, 4, 0, MAX), s -> s.copy(2, 0, 4, 1, MAX),
                 s -> s.copy(2, MAX, 4, 0, MAX), s -> s.copy(2, MAX, 4, MAX, 2), s -> s.copy(2, MAX - 1, 4, 0, 3),
                 s -> s.copy(2, 0, 4, MAX - 1, 3), s -> s.copy(2, MIN, 4, MIN, MIN), s -> s.copy(2, MIN, 4, 0, MAX),
                 s -> s.copy(2, 0, 4, 0, MIN + 1));
     }
 
     static void promise04NoneMayBeCopiedAtTheVeryEnd() {
-        Boundary.clears(BUSY, 0, s -> s.copy(2, 8, 4, 4, 0), s -> s.copy(2, 0, 4, 4, 0), s -> s.copy(2, 8, 4, 0, 0),
+        clears(BUSY, 0, s -> s.copy(2, 8, 4, 4, 0), s -> s.copy(2, 0, 4, 4, 0), s -> s.copy(2, 8, 4, 0, 0),
                 s -> s.copy(3, 0, 3, 0, 0), s -> s.copy(3, 0, 2, 8, 0), s -> s.copy(2, 8, 3, 0, 0));
-        Boundary.finds(BUSY, PLACE, s -> s.copy(2, 9, 4, 0, 0), s -> s.copy(2, 0, 4, 5, 0), s -> s.copy(3, 1, 3, 0, 0),
+        finds(BUSY, PLACE, s -> s.copy(2, 9, 4, 0, 0), s -> s.copy(2, 0, 4, 5, 0), s -> s.copy(3, 1, 3, 0, 0),
                 s -> s.copy(3, 0, 3, 1, 0), s -> s.copy(2, -1, 4, 0, 0), s -> s.copy(2, 0, 4, -1, 0),
                 s -> s.copy(2, MAX, 4, 0, 0), s -> s.copy(2, 0, 4, MIN, 0));
     }
 
     static void promise04JustThoseItemsComeOver() {
-        Boundary.changes(BUSY, 2, s -> s.copy(2, 6, 4, 2, 2), "status: 0", "sheet 4 item 2: 70", "sheet 4 item 3: 80");
-        Boundary.changes(BUSY, 1, s -> s.copy(4, 3, 2, 0, 1), "status: 0", "sheet 2 item 0: 255");
-        Boundary.changes(BUSY, 4, s -> s.copy(4, 0, 2, 4, 4), "status: 0", "sheet 2 item 4: 1000", "sheet 2 item 5: 0",
+        changes(BUSY, 2, s -> s.copy(2, 6, 4, 2, 2), "status: 0", "sheet 4 item 2: 70", "sheet 4 item 3: 80");
+        changes(BUSY, 1, s -> s.copy(4, 3, 2, 0, 1), "status: 0", "sheet 2 item 0: 255");
+        changes(BUSY, 4, s -> s.copy(4, 0, 2, 4, 4), "status: 0", "sheet 2 item 4: 1000", "sheet 2 item 5: 0",
                 "sheet 2 item 6: 5", "sheet 2 item 7: 255");
     }
 
     static void promise04ItemsComeAsTheyWereAhead() {
-        Boundary.changes(BUSY, 7, s -> s.copy(2, 0, 2, 1, 7), "status: 0", "sheet 2 item 1: 10", "sheet 2 item 2: 20",
+        changes(BUSY, 7, s -> s.copy(2, 0, 2, 1, 7), "status: 0", "sheet 2 item 1: 10", "sheet 2 item 2: 20",
                 "sheet 2 item 3: 30", "sheet 2 item 4: 40", "sheet 2 item 5: 50", "sheet 2 item 6: 60",
                 "sheet 2 item 7: 70");
-        Boundary.changes(BUSY, 7, s -> s.copy(2, 1, 2, 0, 7), "status: 0", "sheet 2 item 0: 20", "sheet 2 item 1: 30",
+        changes(BUSY, 7, s -> s.copy(2, 1, 2, 0, 7), "status: 0", "sheet 2 item 0: 20", "sheet 2 item 1: 30",
                 "sheet 2 item 2: 40", "sheet 2 item 3: 50", "sheet 2 item 4: 60", "sheet 2 item 5: 70",
                 "sheet 2 item 6: 80");
-        Boundary.changes(BUSY, 3, s -> s.copy(0, 0, 0, 1, 3), "status: 0", "sheet 0 item 1: 1", "sheet 0 item 2: 2",
+        changes(BUSY, 3, s -> s.copy(0, 0, 0, 1, 3), "status: 0", "sheet 0 item 1: 1", "sheet 0 item 2: 2",
                 "sheet 0 item 3: 3");
-        Boundary.changes(BUSY, 4, s -> s.copy(1, 2, 1, 0, 4), "status: 0", "sheet 1 item 0: 300", "sheet 1 item 1: 400",
+        changes(BUSY, 4, s -> s.copy(1, 2, 1, 0, 4), "status: 0", "sheet 1 item 0: 300", "sheet 1 item 1: 400",
                 "sheet 1 item 2: 500", "sheet 1 item 3: 600");
     }
 
@@ -379,23 +368,23 @@ public final class SheetsBoundaryTest {
             due(s.copy(0, 0, 1, 1, 144), PLACE);
             due(s.copy(0, 1, 1, 0, 144), PLACE);
             due(s.copy(0, 0, 1, 0, 144), 144);
-            due(Boundary.item(s, 1, lane, 0), 0);
-            due(Boundary.item(s, 1, lane, 99), 99);
-            due(Boundary.item(s, 1, lane, 143), 43);
-            due(Boundary.sum(s, 1, lane, 144), 4950 + 946);
-            due(Boundary.sum(s, 0, lane, 144), 4950 + 946);
+            due(item(s, 1, lane, 0), 0);
+            due(item(s, 1, lane, 99), 99);
+            due(item(s, 1, lane, 143), 43);
+            due(sum(s, 1, lane, 144), 4950 + 946);
+            due(sum(s, 0, lane, 144), 4950 + 946);
         }
     }
 
     // ---- 5: drop
 
     static void promise05SheetsAre0To7() {
-        Boundary.bounds(NEW, BAD, (s, v) -> s.drop(v), 0, NULL, 7, NULL);
-        Boundary.bounds(BRIMFUL, BAD, (s, v) -> s.drop(v), 0, 2, 7, 0);
+        bounds(NEW, BAD, (s, v) -> s.drop(v), 0, NULL, 7, NULL);
+        bounds(BRIMFUL, BAD, (s, v) -> s.drop(v), 0, 2, 7, 0);
     }
 
     static void promise05AMissingSheetIsNull() {
-        Boundary.finds(BUSY, NULL, s -> s.drop(5), s -> s.drop(6), s -> s.drop(7));
+        finds(BUSY, NULL, s -> s.drop(5), s -> s.drop(6), s -> s.drop(7));
     }
 
     static void promise05ItTellsHowManyItemsThereWere() {
@@ -410,10 +399,10 @@ public final class SheetsBoundaryTest {
     }
 
     static void promise05JustThatSheetIsMissing() {
-        Boundary.changes(BUSY, 4, s -> s.drop(0), "status: 0", "count 0: 4", "sheet 0 lane: " + NONE,
+        changes(BUSY, 4, s -> s.drop(0), "status: 0", "count 0: 4", "sheet 0 lane: " + NONE,
                 "sheet 0 item 0: gone", "sheet 0 item 1: gone", "sheet 0 item 2: gone", "sheet 0 item 3: gone",
                 "sheet 0 items: " + NULL);
-        Boundary.changes(BUSY, 0, s -> s.drop(3), "status: 0", "count 0: 4", "sheet 3 lane: " + NONE,
+        changes(BUSY, 0, s -> s.drop(3), "status: 0", "count 0: 4", "sheet 3 lane: " + NONE,
                 "sheet 3 items: " + NULL);
     }
 

@@ -9,11 +9,12 @@ import java.util.Map;
 import java.util.TreeSet;
 
 /** What the boundary tests share: objects in three states, all that can be seen of one, and ways to ask that nothing changed. */
-final class Boundary {
+abstract class Boundary {
     static final int NONE = -1000000, BAD = -1000001, STATE = -1000002, FULL = -1000003;
     static final int NULL = -1000011, PLACE = -1000012, KIND = -1000013, SIZE = -1000014, STORE = -1000015;
     static final int MIN = Integer.MIN_VALUE, MAX = Integer.MAX_VALUE;
     static final int BYTES = 0, SHORTS = 1, INTS = 2;
+    static final World NEW = World.NEW, BUSY = World.BUSY, BRIMFUL = World.BRIMFUL;
     /** SHEETS that reading others may lay anew; no test that reads ITEMS keeps its own here. */
     private static final int SCRATCH = 6, NOUGHTS = 7;
     private static final int FINDINGS = -1000010, STATUS_OF_SIZE = 4;
@@ -21,9 +22,6 @@ final class Boundary {
 
     private static String running = "";
     private static int wrong = 0;
-
-    private Boundary() {
-    }
 
     interface Call {
         int on(ShapeBetween s);
@@ -206,13 +204,15 @@ final class Boundary {
     }
 
     private static void surveyMarks(ShapeBetween s, Map<String, Integer> seen) {
-        for (int m = 0; m < s.count(1); m++) {
+        int marks = Math.min(16, s.count(1));
+        int thirds = Math.min(24, s.count(2));
+        for (int m = 0; m < marks; m++) {
             seen.put("mark " + m + " x0", s.at(m, 0, 1, 0));
             seen.put("mark " + m + " y0", s.at(m, 0, 1, 1));
             seen.put("mark " + m + " x1", s.at(m, 1, 1, 0));
             seen.put("mark " + m + " y1", s.at(m, 1, 1, 1));
         }
-        for (int t = 0; t < s.count(2); t++) {
+        for (int t = 0; t < thirds; t++) {
             for (int which = 0; which < 3; which++) {
                 seen.put("third " + t + " mark " + which, s.told(t, which));
             }
