@@ -141,15 +141,16 @@ public final class RowsBoundaryTest extends Boundary {
     }
 
     static void promise21ABadItemLeavesEverything() {
-        ShapeBetween s = BUSY.make();
-        s.set(2, 3, 1001);
-        s.drop(5);
-        due(s.pairs(2, 2, 0, 1, 0), BAD);
-        due(s.status(), 1);
-        due(s.pairs(0, 1, 2, 2, 0), BAD);
-        due(s.status(), 1);
-        due(s.pairs(2, 1, 0, 1, 0), 27);
-        due(s.status(), 0);
+        changes(BUSY, BAD, s -> badItem(s).pairs(2, 2, 0, 1, 0), "status: 1", "sheet 2 item 3: " + BAD);
+        changes(BUSY, BAD, s -> badItem(s).pairs(0, 1, 2, 2, 3), "status: 1", "sheet 2 item 3: " + BAD);
+        changes(BUSY, 27, s -> badItem(s).pairs(2, 1, 0, 1, 0), "status: 0", "sheet 2 item 3: " + BAD);
+    }
+
+    /** The last ITEM of the second POINT in SHEET 2 is too large, and status() is 1. */
+    private static ShapeBetween badItem(ShapeBetween s) {
+        due(s.set(2, 3, 1001), 1001);
+        due(s.drop(5), NULL);
+        return s;
     }
 
     static void promise21TheLastOfSixtyItemsIsLookedAt() {
@@ -311,6 +312,12 @@ public final class RowsBoundaryTest extends Boundary {
             s.set(2, 3, good);
             due(s.pair(2, 2, 0, 1, 1), 100);
         }
+    }
+
+    static void promise22ABadItemLeavesEverything() {
+        changes(BUSY, BAD, s -> badItem(s).pair(2, 2, 0, 1, 0), "status: 1", "sheet 2 item 3: " + BAD);
+        changes(BUSY, BAD, s -> badItem(s).pair(0, 1, 2, 2, -1), "status: 1", "sheet 2 item 3: " + BAD);
+        changes(BUSY, 0, s -> badItem(s).pair(0, 1, 2, 1, 0), "status: 0", "sheet 2 item 3: " + BAD);
     }
 
     static void promise22RefusalsComeAheadOfNone() {

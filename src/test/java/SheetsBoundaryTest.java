@@ -60,6 +60,14 @@ public final class SheetsBoundaryTest extends Boundary {
         due(new ShapeBetween().unkey(), 0);
     }
 
+    static void promise01The512thCallIsAnswered() {
+        ShapeBetween s = new ShapeBetween();
+        for (int call = 1; call <= 511; call++) {
+            due(s.sheet(call % 8, INTS, call % 145), call % 145);
+        }
+        due(s.drop(511 % 8), 511 % 145);
+    }
+
     // ---- 2: sheet
 
     static void promise02SheetsAre0To7() {
