@@ -513,6 +513,10 @@ public final class BetweenBoundaryTest extends Boundary {
         due(s.picture(0, 0, 1, 2, 1), 1);
         due(s.picture(0, 0, 1, 3, 1), BAD);
         due(s.picture(0, 0, 0, 2, 1), BAD);
+        fill(s, 0, INTS, 65536, 255, -65536, -255);
+        due(s.picture(0, 0, 0, 2, 1), BAD);
+        due(s.picture(0, 0, 1, 2, 1), BAD);
+        due(s.picture(0, 0, 3, 1, 1), BAD);
     }
 
     static void promise19TheLastOf144NumbersIsLookedAt() {

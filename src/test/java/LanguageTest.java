@@ -8,17 +8,12 @@ import java.util.ArrayList;
 import java.util.HashSet;
 import java.util.List;
 import java.util.Set;
-import java.util.TreeSet;
 import java.util.regex.Matcher;
 import java.util.regex.Pattern;
 
 /** What can be seen of LANGUAGE.md from the class and its source: the face, the shapes, the words. */
 public final class LanguageTest {
     private static final Path SOURCE = Path.of("src/main/java/ShapeBetween.java");
-    /** The document's methods, each with how many ints it takes. */
-    private static final String[] FACE = {"sheet/3", "set/3", "copy/5", "drop/1", "mark/4", "move/4", "at/4", "third/3",
-        "told/2", "folds/2", "first/2", "sides/1", "key/2", "eased/1", "unkey/0", "in/4", "from/5", "picture/5",
-        "seen/4", "pairs/5", "pair/5", "kind/1", "as/2", "ask/2", "trace/1", "count/1", "status/0"};
     private static final String[] WORDS = {"throw", "throws", "try", "catch", "finally", "synchronized", "assert",
         "import", "package", "var", "protected", "native", "volatile", "transient", "equals", "hashCode", "toString",
         "System\\s*\\.\\s*(?!arraycopy)", "->", "::", "static\\s*\\{"};
@@ -43,22 +38,15 @@ public final class LanguageTest {
         }
     }
 
+    /** That the public members are just the document's is DocumentTest's. */
     private static void face() {
         Class<?> face = ShapeBetween.class;
-        expect(face.getModifiers() == (Modifier.PUBLIC | Modifier.FINAL), "rule 1: the class is public and final");
-        Set<String> methods = new TreeSet<>();
         Set<String> publicNames = new HashSet<>();
         for (Method m : face.getDeclaredMethods()) {
             if (Modifier.isPublic(m.getModifiers())) {
-                methods.add(m.getName() + "/" + m.getParameterCount());
                 publicNames.add(m.getName());
-                expect(m.getReturnType() == int.class && !Modifier.isStatic(m.getModifiers()), "the face: " + m);
-                for (Class<?> parameter : m.getParameterTypes()) {
-                    expect(parameter == int.class, "the face: " + m);
-                }
             }
         }
-        expect(methods.equals(new TreeSet<>(List.of(FACE))), "rule 1: the public methods are " + methods);
         for (Class<?> c : allClasses()) {
             for (Method m : c.getDeclaredMethods()) {
                 boolean own = c == face && Modifier.isPublic(m.getModifiers());
@@ -66,14 +54,10 @@ public final class LanguageTest {
                 expect(own || c != face || Modifier.isPrivate(m.getModifiers()), "rule 1: " + m + " is not private");
             }
         }
-        Set<String> constants = new TreeSet<>();
         for (Field f : face.getDeclaredFields()) {
-            if (!Modifier.isPrivate(f.getModifiers())) {
-                constants.add(f.getName());
-            }
+            boolean told = Modifier.isPublic(f.getModifiers());
+            expect(told || Modifier.isPrivate(f.getModifiers()), "rule 1: " + f + " is not private");
         }
-        expect(constants.equals(new TreeSet<>(List.of("NONE", "BAD", "STATE", "FULL"))), "rule 1: " + constants);
-        expect(face.getDeclaredConstructors().length == 1 && face.getConstructors().length == 1, "rule 1: constructors");
     }
 
     private static List<Class<?>> allClasses() {

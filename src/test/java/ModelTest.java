@@ -6,7 +6,7 @@ import java.util.TreeSet;
 
 /** Long runs of mixed calls, each answer held against a slow model that is written another way. */
 public final class ModelTest {
-    private static final int RUNS = 600, CALLS = 512;
+    private static final int RUNS = 3000, CALLS = 512;
     private static final int NONE = -1000000, BAD = -1000001, STATE = -1000002, FULL = -1000003;
 
     public static void main(String[] args) {
@@ -107,10 +107,13 @@ public final class ModelTest {
         static final String[] NAMES = {"sheet", "set", "copy", "drop", "mark", "move", "at", "third", "told", "folds",
             "first", "sides", "key", "eased", "unkey", "in", "from", "picture", "seen", "pairs", "pair", "kind", "as",
             "ask", "trace", "count", "status"};
-        private static final int[] WEIGHTS = {5, 14, 5, 1, 8, 6, 3, 10, 4, 4, 3, 2, 4, 4, 1, 8, 8, 6, 8, 9, 9, 4, 5, 6,
+        private static final int[] WEIGHTS = {5, 14, 5, 1, 8, 6, 3, 10, 4, 4, 3, 2, 8, 6, 1, 8, 8, 6, 8, 9, 9, 4, 5, 6,
             5, 3, 8};
         private static final String[] SHAPES = {"sli", "siv", "sisij", "s", "xxxx", "mpxx", "mknb", "mmm", "tw", "tn",
             "nb", "c", "xx", "x", "", "xxkn", "xxknw", "psjdd", "xxkn", "srsrw", "srsrj", "t", "tw", "tb", "j", "c", ""};
+
+        /** Where places and ITEMS lie; the nearer, the more of them are alike. */
+        private static final int[] REACHES = {1000, 12, 200, 3};
 
         private final Random random;
         private final int reach;
@@ -119,7 +122,7 @@ public final class ModelTest {
 
         Calls(int run) {
             random = new Random(run);
-            reach = run % 3 == 0 ? 1000 : run % 3 == 1 ? 12 : 200;
+            reach = REACHES[run % REACHES.length];
             tameness = run % 5 == 4 ? 5 : 60;
         }
 
@@ -144,7 +147,28 @@ public final class ModelTest {
             for (int i = 0; i < a.length; i++) {
                 a[i] = random.nextInt(tameness) == 0 ? wild() : argument(shape.charAt(i), model);
             }
+            if (random.nextInt(tameness) != 0) {
+                favour(NAMES[which], a, model);
+            }
             return a;
+        }
+
+        /** What chance alone would seldom bring about: MARKS that stay, KEYS that rise. */
+        private void favour(String name, int[] a, Model model) {
+            if (name.equals("mark") && random.nextBoolean()) {
+                a[2] = a[0];
+                a[3] = a[1];
+            }
+            if (name.equals("move") && random.nextInt(3) == 0 && a[0] >= 0 && a[0] < model.marks.size()) {
+                int other = a[1] == 0 ? 2 : 0;
+                a[2] = model.marks.get(a[0])[other];
+                a[3] = model.marks.get(a[0])[other + 1];
+            }
+            if (name.equals("key") && random.nextInt(4) != 0 && !model.keys.isEmpty()) {
+                int[] last = model.keys.get(model.keys.size() - 1);
+                a[0] = last[0] + random.nextInt(4);
+                a[1] = last[1] + random.nextInt(4) - 1;
+            }
         }
 
         private int wild() {

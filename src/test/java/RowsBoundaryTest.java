@@ -140,6 +140,29 @@ public final class RowsBoundaryTest extends Boundary {
         }
     }
 
+    static void promise21ItemsOfEveryLaneAreTakenAsTheyAre() {
+        int[][] bad = {{BYTES, -1}, {BYTES, -128}, {SHORTS, -1}, {SHORTS, -1000}, {SHORTS, -32768}, {SHORTS, 1001},
+            {SHORTS, 32767}, {INTS, -1000}, {INTS, 65536}, {INTS, 65536 + 1000}, {INTS, -65536}, {INTS, 256 - 65536}};
+        for (int[] b : bad) {
+            ShapeBetween s = new ShapeBetween();
+            fill(s, 0, b[0], 0, 0);
+            fill(s, 1, INTS, 0, 0);
+            due(s.pairs(0, 1, 1, 1, 0), 0);
+            due(s.set(0, 1, b[1]), b[1]);
+            due(s.pairs(0, 1, 1, 1, 0), BAD);
+            due(s.pairs(1, 1, 0, 1, 0), BAD);
+            due(s.pair(0, 1, 1, 1, 0), BAD);
+            due(s.pair(1, 1, 0, 1, 0), BAD);
+        }
+        ShapeBetween s = new ShapeBetween();
+        fill(s, 0, BYTES, 127, 0);
+        fill(s, 1, SHORTS, 1000, 0);
+        fill(s, 2, INTS, 0, 1000);
+        due(s.pairs(0, 1, 1, 1, 0), 873);
+        due(s.pairs(1, 1, 2, 1, 0), 2000);
+        due(s.pairs(2, 1, 0, 1, 0), 1127);
+    }
+
     static void promise21ABadItemLeavesEverything() {
         changes(BUSY, BAD, s -> badItem(s).pairs(2, 2, 0, 1, 0), "status: 1", "sheet 2 item 3: " + BAD);
         changes(BUSY, BAD, s -> badItem(s).pairs(0, 1, 2, 2, 3), "status: 1", "sheet 2 item 3: " + BAD);

@@ -8,7 +8,7 @@ import java.util.List;
 import java.util.Map;
 import java.util.TreeSet;
 
-/** What the boundary tests share: objects in three states, all that can be seen of one, and ways to ask that nothing changed. */
+/** What the tests by promise share: objects in three states, all that can be seen of one, and ways to ask that nothing changed. */
 abstract class Boundary {
     static final int NONE = -1000000, BAD = -1000001, STATE = -1000002, FULL = -1000003;
     static final int NULL = -1000011, PLACE = -1000012, KIND = -1000013, SIZE = -1000014, STORE = -1000015;
@@ -395,7 +395,7 @@ abstract class Boundary {
             running = m.getName();
             invoke(m);
         }
-        System.out.println(methods.size() + " boundaries, " + wrong + " answers or states not as due");
+        System.out.println(methods.size() + " methods, " + wrong + " answers or states not as due");
         if (wrong != 0 || methods.isEmpty()) {
             System.exit(1);
         }
