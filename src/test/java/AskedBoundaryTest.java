@@ -71,6 +71,20 @@ public final class AskedBoundaryTest extends Boundary {
         }
     }
 
+    static void promise23EachThirdGoesByItsOwnMarks() {
+        int[] area = {20, 20};
+        ShapeBetween s = triangles(area, area, area, area, area);
+        for (int mark = 0; mark < 15; mark++) {
+            int x = s.at(mark, 0, 1, 0);
+            int y = s.at(mark, 0, 1, 1);
+            s.move(mark, 1, x, y + 1);
+            for (int third = 0; third < 5; third++) {
+                due(s.kind(third), third == mark / 3 ? SOUND : STILL);
+            }
+            s.move(mark, 1, x, y);
+        }
+    }
+
     static void promise23StillMarksThatAreNotSoundAreNot() {
         due(triangle(0, 0).kind(0), FLAT);
         due(triangle(-1, -1).kind(0), TURNED);

@@ -12,7 +12,7 @@ import java.util.regex.Pattern;
 import java.util.spi.ToolProvider;
 
 /** What can be seen of LANGUAGE.md from the compiled class: the library, recursion, how deep calls go, what is made. */
-public final class BytecodeTest {
+public final class BytecodeTest extends Expecting {
     /** What LANGUAGE.md rule 4 lists for numbers and arrays of them; the class has no texts and no lists. */
     private static final Pattern LIBRARY = Pattern.compile("java/lang/Object\\.\"<init>\"|java/lang/System\\.arraycopy"
             + "|java/lang/(Math|Integer|Long)\\.(?!\\w+Exact$)\\w+|java/util/Arrays\\.(copyOf|copyOfRange|fill)");
@@ -20,8 +20,6 @@ public final class BytecodeTest {
     private static final Pattern HEAD = Pattern.compile("  (?:[\\w ]+ )?([\\w$]+)\\([^)]*\\);");
     private static final Pattern CALL = Pattern.compile("\\binvoke(\\w+) .*// (?:Interface)?Method ([^:]+):.*");
     private static final Pattern MADE = Pattern.compile("\\d+: (new|newarray|anewarray|multianewarray)\\b.*");
-
-    private static int wrong = 0;
 
     public static void main(String[] args) {
         Map<String, Set<String>> calls = new TreeMap<>();
@@ -36,17 +34,7 @@ public final class BytecodeTest {
             deepest = Math.max(deepest, depth(method, calls, depths, new ArrayList<>()));
         }
         expect(deepest <= DEEPEST, "rule 11: calls go " + deepest + " deep");
-        System.out.println(wrong == 0 ? "calls go " + deepest + " deep at most" : wrong + " rules are not kept");
-        if (wrong != 0) {
-            System.exit(1);
-        }
-    }
-
-    private static void expect(boolean kept, String rule) {
-        if (!kept) {
-            wrong++;
-            System.out.println(rule);
-        }
+        end("calls go " + deepest + " deep at most");
     }
 
     private static String told(String name) {

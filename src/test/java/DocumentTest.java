@@ -14,13 +14,11 @@ import java.util.regex.Pattern;
 import java.util.stream.Stream;
 
 /** The document's public face, held against the class, and its promises, each of which must have tests. */
-public final class DocumentTest {
+public final class DocumentTest extends Expecting {
     private static final Path DOCUMENT = Path.of("../shared/DOC.md");
     private static final Path SOURCE = Path.of("src/main/java/ShapeBetween.java");
     private static final Path TESTS = Path.of("src/test/java");
     private static final int PROMISES = 28;
-
-    private static int wrong = 0;
 
     public static void main(String[] args) throws IOException, IllegalAccessException {
         String document = Files.readString(DOCUMENT);
@@ -30,23 +28,13 @@ public final class DocumentTest {
         theMethods(face);
         thePromises(document, face);
         theHeadings(document, Files.readString(SOURCE));
-        System.out.println(wrong == 0 ? "the class has the document's face" : wrong + " things are not as the document says");
-        if (wrong != 0) {
-            System.exit(1);
-        }
-    }
-
-    private static void expect(boolean holds, String what) {
-        if (!holds) {
-            wrong++;
-            System.out.println(what);
-        }
+        end("the class has the document's face");
     }
 
     private static String first(String text, String pattern) {
         Matcher m = Pattern.compile(pattern).matcher(text);
         boolean found = m.find();
-        expect(found, "the document has no " + pattern);
+        expect(found, "nowhere is there " + pattern);
         return found ? m.group(1) : "";
     }
 

@@ -12,30 +12,18 @@ import java.util.regex.Matcher;
 import java.util.regex.Pattern;
 
 /** What can be seen of LANGUAGE.md from the class and its source: the face, the shapes, the words. */
-public final class LanguageTest {
+public final class LanguageTest extends Expecting {
     private static final Path SOURCE = Path.of("src/main/java/ShapeBetween.java");
     private static final String[] WORDS = {"throw", "throws", "try", "catch", "finally", "synchronized", "assert",
         "import", "package", "var", "protected", "native", "volatile", "transient", "equals", "hashCode", "toString",
         "System\\s*\\.\\s*(?!arraycopy)", "->", "::", "static\\s*\\{"};
-
-    private static int wrong = 0;
 
     public static void main(String[] args) throws IOException {
         face();
         classes();
         words(Files.readString(SOURCE));
         lengths(Files.readString(SOURCE));
-        System.out.println(wrong == 0 ? "the rules that can be seen are kept" : wrong + " rules are not kept");
-        if (wrong != 0) {
-            System.exit(1);
-        }
-    }
-
-    private static void expect(boolean kept, String rule) {
-        if (!kept) {
-            wrong++;
-            System.out.println(rule);
-        }
+        end("the rules that can be seen are kept");
     }
 
     /** That the public members are just the document's is DocumentTest's. */

@@ -17,38 +17,28 @@ import java.util.stream.Stream;
 import javax.tools.ToolProvider;
 
 /** What README.md shows of the class compiles and answers as it says; it names every call, constant and test. */
-public final class ReadmeTest {
+public final class ReadmeTest extends Expecting {
     private static final Path README = Path.of("README.md");
     private static final Path TESTS = Path.of("src/test/java");
     private static final String NEW = "ShapeBetween s = new ShapeBetween();";
     /** A line of use: a name for the answer or none, the call, the answer, and perhaps a word on it. */
     private static final Pattern USE = Pattern.compile("(int \\w+ = )?(s\\.(\\w+)\\([^;]*\\)); +// (-?\\d+|[A-Z]+)(: .+)?");
 
-    private static int wrong = 0;
     private static int answers = 0;
 
     public static void main(String[] args) throws Exception {
         String readme = Files.readString(README);
         use(blocks(readme, "java"));
+        expect(answers > 0, "README.md shows nothing");
         names(readme);
         tests(readme);
-        System.out.println(wrong == 0 ? answers + " lines of README.md answer as it says" : wrong + " things are not as README.md says");
-        if (wrong != 0 || answers == 0) {
-            System.exit(1);
-        }
+        end(answers + " lines of README.md answer as it says");
     }
 
     /** Called by what is made of README.md's lines. */
     public static void due(String line, int got, int want) {
         answers++;
         expect(got == want, line + " answered " + got);
-    }
-
-    private static void expect(boolean holds, String what) {
-        if (!holds) {
-            wrong++;
-            System.out.println(what);
-        }
     }
 
     private static List<String> blocks(String readme, String language) {
